@@ -303,8 +303,8 @@ public final class TarYard {
             if (wanted > bytes.length) {
                 bytes = Arrays.copyOf(bytes, wanted <= MIDDLE ? MIDDLE : wanted <= LARGE ? LARGE : MOST_BYTES);
             }
-            if (wanted > length) {
-                Arrays.fill(bytes, length, wanted, (byte) 0);
+            for (int i = length; i < wanted; i++) {
+                bytes[i] = 0;
             }
             length = wanted;
         }
