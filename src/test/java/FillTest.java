@@ -1,74 +1,201 @@
 /** Promise 4. */
 public final class FillTest {
+    private static final long EIGHT = Yard.word("abcdefgh");
+
     public static void main(String[] args) {
-        files();
-        links();
-        wrongArguments();
-        oneBehindTheOther();
+        Expect.holds("A file's contents, or a symbolic link's target, gets n bytes more: how long it is", FillTest::grows);
+        Expect.holds("a file CONTENTS of 0 to 2000 bytes", "each byte", FillTest::eachByteOfAFile);
+        Expect.holds("gets n bytes more", "bytes behind them are not looked at", FillTest::bytesBehind);
+        Expect.holds("it is no such node", FillTest::noSuchNodes);
+        Expect.holds("n is not 0 .. 8", "the first that are not", FillTest::noLengths);
+        Expect.holds("n is not 0 .. 8", "the last that are", FillTest::lengths);
+        Expect.holds("n is not 0 .. 8", "nothing", FillTest::nothing);
+        Expect.holds("a character of a target is none such", "each character", FillTest::eachCharacter);
+        Expect.holds("a character of a target is none such", "as the last of eight", FillTest::theLastOfEight);
+        Expect.holds("it would be too long", "a file of 2000", FillTest::fileOf2000);
+        Expect.holds("it would be too long", "a file of 2001", FillTest::fileOf2001);
+        Expect.holds("it would be too long", "a target of 100", FillTest::targetOf100);
+        Expect.holds("it would be too long", "a target of 101", FillTest::targetOf101);
+        Expect.holds("it would be too long", "nothing to a full one", FillTest::nothingToAFullOne);
+        Expect.holds("of several exceptions that fit the one named first is thrown", FillTest::argumentsComeFirst);
+        Expect.holds("A call that throws changes nothing", FillTest::nothingChanges);
+        Expect.holds("gets n bytes more", "behind contents that were longer once", FillTest::behindShorterContents);
         Expect.done();
     }
 
-    private static void files() {
-        TarYard yard = new TarYard();
-        int file = Yards.make(yard, 0, Yards.FILE, "f");
-        Expect.same("nothing", yard.fill(file, -1, 0), 0);
-        Expect.same("eight", yard.fill(file, 0xff00010203040506L, 8), 8);
-        Expect.same("two", yard.fill(file, 0x0102L, 2), 10);
-        Yards.expectText("bytes", Yards.text(yard, file, 1), "\u0006\u0005\u0004\u0003\u0002\u0001\u0000\u00ff\u0002\u0001");
-        yard.contents(file, 1995, 3);
-        Expect.full("2001", () -> yard.fill(file, 0, 6));
-        Expect.same("2000", yard.fill(file, 7, 5), 2000);
-        Expect.same("byte 1995", yard.part(file, 1, 1995), 7);
-        Expect.same("byte 1999", yard.part(file, 1, 1999), 0);
-        Expect.full("2001 again", () -> yard.fill(file, 0, 1));
-        Expect.same("nothing more", yard.fill(file, 0, 0), 2000);
-        Expect.refused("n comes first", () -> yard.fill(file, 0, 9));
-        yard.contents(file, 3, 3);
-        Expect.same("behind shorter contents", yard.fill(file, 0, 4), 7);
-        Expect.same("byte 3", yard.part(file, 1, 3), 0);
+    private static Yard withFile(int length) {
+        Yard yard = new Yard();
+        yard.make(0, Yard.FILE, "f");
+        yard.contents(1, length, 7);
+        return yard;
     }
 
-    private static void links() {
-        TarYard yard = new TarYard();
-        int link = Yards.make(yard, 0, Yards.SYMBOLIC_LINK, "s");
-        Expect.same("slashes and dots", yard.fill(link, Yards.word("/../a//!"), 8), 8);
-        Expect.same("126", yard.fill(link, 126, 1), 9);
-        for (int letter : new int[] {0, 32, 127, 128, 255}) {
-            Expect.refused("letter " + letter, () -> yard.fill(link, letter, 1));
-            Expect.refused("letter behind " + letter, () -> yard.fill(link, letter * 256L + 'x', 2));
+    private static Yard withTarget(int length) {
+        Yard yard = new Yard();
+        yard.make(0, Yard.SYMBOLIC_LINK, "s");
+        yard.fill(1, Yard.repeat('t', length));
+        return yard;
+    }
+
+    private static void grows() {
+        Yard yard = withFile(0);
+        Expect.same("eight", yard.fill(1, 0xff00010203040506L, 8), 8);
+        Expect.same("two", yard.fill(1, 0x0102L, 2), 10);
+        Expect.text("bytes", yard.body(1), "\u0006\u0005\u0004\u0003\u0002\u0001\u0000\u00ff\u0002\u0001");
+        Expect.same("how long", yard.node(1, 6), 10);
+        Yard link = withTarget(0);
+        Expect.same("eight", link.fill(1, Yard.word("/../a//!"), 8), 8);
+        Expect.same("one", link.fill(1, '~', 1), 9);
+        Expect.text("target", link.body(1), "/../a//!~");
+    }
+
+    private static void eachByteOfAFile() {
+        Yard yard = withFile(0);
+        for (int b = 0; b < 256; b++) {
+            yard.fill(1, b, 1);
         }
-        Expect.same("none of them", yard.fill(link, 0, 0), 9);
-        Yards.target(yard, link, Yards.repeat('y', 90));
-        Expect.full("101", () -> yard.fill(link, Yards.word("xy"), 2));
-        Expect.refused("a wrong character comes first", () -> yard.fill(link, Yards.word("x "), 2));
-        Expect.same("100", yard.fill(link, 'z', 1), 100);
-        Expect.full("101 again", () -> yard.fill(link, 'z', 1));
-        Yards.expectText("target", Yards.text(yard, link, 1), "/../a//!~" + Yards.repeat('y', 90) + "z");
-    }
-
-    private static void oneBehindTheOther() {
-        TarYard yard = new TarYard();
-        int file = Yards.make(yard, 0, Yards.FILE, "f");
-        int link = Yards.make(yard, 0, Yards.SYMBOLIC_LINK, "s");
-        Expect.refused("a blank is no name", () -> yard.make(0, 1, ' ', 1, 0));
-        Expect.same("a refused name is not a target's", yard.fill(link, 'x', 1), 1);
-        yard.fill(file, 0, 8);
-        Expect.same("a file's bytes are not a link's", yard.fill(link, Yards.word("ab"), 2), 3);
-        Expect.same("nothing behind a file's bytes", yard.fill(file, 0, 1) - yard.fill(link, 0, 0), 6);
-    }
-
-    private static void wrongArguments() {
-        TarYard yard = new TarYard();
-        int file = Yards.make(yard, 0, Yards.FILE, "f");
-        int dir = Yards.make(yard, 0, Yards.DIRECTORY, "d");
-        int hard = Yards.make(yard, 0, Yards.HARD_LINK, "h", file);
-        for (int node : new int[] {0, dir, hard, 4, -1, Integer.MIN_VALUE, Integer.MAX_VALUE}) {
-            Expect.refused("node " + node, () -> yard.fill(node, 'x', 1));
-            Expect.refused("nothing to node " + node, () -> yard.fill(node, 'x', 0));
+        for (int b = 0; b < 256; b++) {
+            Expect.same("byte " + b, yard.part(1, 1, b), b);
         }
+    }
+
+    private static void bytesBehind() {
+        Yard yard = withFile(0);
+        yard.fill(1, -1L, 1);
+        yard.fill(1, 0x4142L, 1);
+        Expect.text("bytes", yard.body(1), "\u00ffB");
+        Yard link = withTarget(0);
+        Expect.same("0 behind", link.fill(1, 'a', 1), 1);
+        Expect.same("255 behind", link.fill(1, 0xffffffffffffff41L, 1), 2);
+        Expect.same("32 behind seven", link.fill(1, 0x2041414141414141L, 7), 9);
+        Expect.text("target", link.body(1), "aAAAAAAAA");
+    }
+
+    private static void noSuchNodes() {
+        Yard yard = new Yard();
+        yard.make(0, Yard.FILE, "f");
+        yard.make(0, Yard.DIRECTORY, "d");
+        yard.make(0, Yard.HARD_LINK, "h", 1);
+        for (int node : new int[] {0, 2, 3, 4, 29, 30, -1, Integer.MIN_VALUE, Integer.MAX_VALUE}) {
+            Expect.refused(yard, "node " + node, y -> y.fill(node, 'x', 1));
+            Expect.refused(yard, "nothing to node " + node, y -> y.fill(node, 'x', 0));
+        }
+    }
+
+    private static void noLengths() {
+        for (int n : new int[] {-1, 9, 16, Integer.MIN_VALUE, Integer.MAX_VALUE}) {
+            Expect.refused(withFile(20), "a file, n " + n, y -> y.fill(1, EIGHT, n));
+            Expect.refused(withTarget(20), "a target, n " + n, y -> y.fill(1, EIGHT, n));
+        }
+    }
+
+    private static void lengths() {
+        for (int n = 0; n <= 8; n++) {
+            Expect.same("a file, n " + n, withFile(3).fill(1, EIGHT, n), 3 + n);
+            Yard link = withTarget(1);
+            Expect.same("a target, n " + n, link.fill(1, EIGHT, n), 1 + n);
+            Expect.text("target", link.body(1), "t" + "abcdefgh".substring(0, n));
+        }
+    }
+
+    private static void nothing() {
+        Expect.same("to a new file", withFile(0).fill(1, -1L, 0), 0);
+        Expect.same("to a file", withFile(5).fill(1, -1L, 0), 5);
+        Expect.same("to a new link, of no characters", withTarget(0).fill(1, 0, 0), 0);
+        Yard link = withTarget(5);
+        Expect.same("to a link, of no characters", link.fill(1, -1L, 0), 5);
+        Expect.text("target", link.body(1), "ttttt");
+    }
+
+    private static void eachCharacter() {
+        for (int letter = 0; letter < 256; letter++) {
+            Yard yard = withTarget(1);
+            int b = letter;
+            if (letter >= 33 && letter <= 126) {
+                Expect.same("character " + letter, yard.fill(1, letter, 1), 2);
+                Expect.same("is there", yard.part(1, 1, 1), letter);
+            } else {
+                Expect.refused(yard, "character " + letter, y -> y.fill(1, b, 1));
+            }
+        }
+    }
+
+    private static void theLastOfEight() {
+        for (long letter : new long[] {0, 32, 127, 128, 255}) {
+            Expect.refused(withTarget(1), "character " + letter, y -> y.fill(1, letter << 56 | EIGHT >>> 8, 8));
+        }
+        for (long letter : new long[] {33, 46, 47, 126}) {
+            Expect.same("character " + letter, withTarget(1).fill(1, letter << 56 | EIGHT >>> 8, 8), 9);
+        }
+    }
+
+    private static void fileOf2000() {
+        Yard yard = withFile(1995);
+        Expect.same("1995 and 5", yard.fill(1, 0x0900000007L, 5), 2000);
+        Expect.same("byte 1994", yard.part(1, 1, 1994), (7 + 31 * 1994) % 256);
+        Expect.same("byte 1995", yard.part(1, 1, 1995), 7);
+        Expect.same("byte 1999", yard.part(1, 1, 1999), 9);
+        Expect.same("byte 2000", yard.part(1, 1, 2000), Yard.NONE);
+        Expect.same("1999 and 1", withFile(1999).fill(1, 0, 1), 2000);
+        Expect.same("1992 and 8", withFile(1992).fill(1, 0, 8), 2000);
+    }
+
+    private static void fileOf2001() {
+        Expect.full(withFile(2000), "2000 and 1", y -> y.fill(1, 0, 1));
+        Expect.full(withFile(1999), "1999 and 2", y -> y.fill(1, 0, 2));
+        Expect.full(withFile(1993), "1993 and 8", y -> y.fill(1, 0, 8));
+        Expect.full(withFile(2000), "2000 and 8", y -> y.fill(1, 0, 8));
+    }
+
+    private static void targetOf100() {
+        Expect.same("99 and 1", withTarget(99).fill(1, EIGHT, 1), 100);
+        Yard yard = withTarget(92);
+        Expect.same("92 and 8", yard.fill(1, EIGHT, 8), 100);
+        Expect.text("target", yard.body(1), Yard.repeat('t', 92) + "abcdefgh");
+    }
+
+    private static void targetOf101() {
+        Expect.full(withTarget(100), "100 and 1", y -> y.fill(1, EIGHT, 1));
+        Expect.full(withTarget(99), "99 and 2", y -> y.fill(1, EIGHT, 2));
+        Expect.full(withTarget(93), "93 and 8", y -> y.fill(1, EIGHT, 8));
+        Expect.full(withTarget(100), "100 and 8", y -> y.fill(1, EIGHT, 8));
+    }
+
+    private static void nothingToAFullOne() {
+        Expect.same("a file", withFile(2000).fill(1, EIGHT, 0), 2000);
+        Expect.same("a target", withTarget(100).fill(1, EIGHT, 0), 100);
+    }
+
+    private static void argumentsComeFirst() {
         for (int n : new int[] {-1, 9, Integer.MIN_VALUE, Integer.MAX_VALUE}) {
-            Expect.refused("n " + n, () -> yard.fill(file, 'x', n));
+            Expect.refused(withFile(2000), "a file, n " + n, y -> y.fill(1, EIGHT, n));
+            Expect.refused(withTarget(100), "a target, n " + n, y -> y.fill(1, EIGHT, n));
         }
-        Expect.same("length", yard.node(file, 6), 0);
+        Expect.refused(withTarget(100), "a blank", y -> y.fill(1, ' ', 1));
+        Expect.refused(withTarget(99), "a blank behind another one", y -> y.fill(1, Yard.word("a "), 2));
+        Expect.refused(withTarget(99), "a blank before another one", y -> y.fill(1, Yard.word(" a"), 2));
+    }
+
+    private static void nothingChanges() {
+        Yard yard = withTarget(95);
+        yard.make(0, Yard.FILE, "f");
+        yard.contents(2, 1996, 1);
+        yard.write();
+        yard.alter(0, 'x');
+        yard.read();
+        Expect.full(yard, "too long a target", y -> y.fill(1, EIGHT, 6));
+        Expect.full(yard, "too long contents", y -> y.fill(2, EIGHT, 5));
+        Expect.refused(yard, "no character", y -> y.fill(1, Yard.word("abc\u007f"), 4));
+        Expect.refused(yard, "n", y -> y.fill(2, EIGHT, 9));
+        Expect.refused(yard, "root", y -> y.fill(0, EIGHT, 1));
+        Expect.same("target then", yard.fill(1, EIGHT, 5), 100);
+        Expect.same("contents then", yard.fill(2, EIGHT, 4), 2000);
+    }
+
+    private static void behindShorterContents() {
+        Yard yard = withFile(2000);
+        yard.contents(1, 3, 7);
+        Expect.same("how long", yard.fill(1, 0, 4), 7);
+        Expect.text("bytes", yard.body(1), "\u0007\u0026\u0045\u0000\u0000\u0000\u0000");
     }
 }

@@ -1,10 +1,15 @@
 import java.util.Arrays;
 import java.util.Random;
 import java.util.function.IntSupplier;
+import java.util.function.ToIntFunction;
 
 /** Runs of calls by a fixed seed, each call answered by the class and by the model. */
 public final class RandomRunsTest {
     private static final int RUNS = 500;
+    /** No step makes more calls than this. */
+    private static final int MOST_CALLS_OF_A_STEP = 13;
+    /** What a run leaves for looking at its end. */
+    private static final int LOOKS = 150;
     private static final int[] NUMBERS = {
         Integer.MIN_VALUE, -2, -1, 0, 1, 2, 3, 7, 8, 9, 29, 30, 31, 99, 100, 101, 255, 256, 511, 512, 2000, 2001, 4095, 4096,
         10239, 10240, 10241, 2097151, 2097152, Integer.MAX_VALUE};
@@ -14,7 +19,7 @@ public final class RandomRunsTest {
     private static final String LETTERS = "ab-./A~!";
 
     private final Random random;
-    private final TarYard yard = new TarYard();
+    private final Yard yard = new Yard();
     private final Model model = new Model();
     private boolean same = true;
 
@@ -24,17 +29,18 @@ public final class RandomRunsTest {
 
     public static void main(String[] args) {
         for (int run = 0; run < RUNS; run++) {
-            new RandomRunsTest(run).play(run);
+            int seed = run;
+            Expect.holds("run " + seed, () -> new RandomRunsTest(seed).play());
         }
         Expect.done();
     }
 
-    private void play(int run) {
-        int calls = 1 + random.nextInt(512);
-        for (int call = 0; call < calls && same; call++) {
-            step("run " + run + " call " + call);
+    private void play() {
+        int left = LOOKS + random.nextInt(Yard.MOST_CALLS - LOOKS);
+        while (yard.callsLeft() >= left + MOST_CALLS_OF_A_STEP && same) {
+            step("call " + (Yard.MOST_CALLS - yard.callsLeft()));
         }
-        compareStates("run " + run);
+        compareStates();
     }
 
     private void step(String where) {
@@ -57,31 +63,31 @@ public final class RandomRunsTest {
             case 0, 1 -> {
                 int in = random.nextInt(model.total(0));
                 int kind = random.nextInt(4);
-                both(where + " make", () -> yard.make(in, kind, w, few, node), () -> model.make(in, kind, w, few, node));
+                both(where + " make", t -> t.make(in, kind, w, few, node), () -> model.make(in, kind, w, few, node));
             }
             case 2 -> {
-                for (int i = 0; i < 13; i++) {
-                    both(where + " rename", () -> yard.rename(node, w, n), () -> model.rename(node, w, n));
+                for (int i = 0; i < MOST_CALLS_OF_A_STEP; i++) {
+                    both(where + " rename", t -> t.rename(node, w, n), () -> model.rename(node, w, n));
                 }
             }
-            case 3 -> both(where + " rename", () -> yard.rename(node, w, few), () -> model.rename(node, w, few));
-            case 4 -> both(where + " fill", () -> yard.fill(node, w, n), () -> model.fill(node, w, n));
+            case 3 -> both(where + " rename", t -> t.rename(node, w, few), () -> model.rename(node, w, few));
+            case 4 -> both(where + " fill", t -> t.fill(node, w, n), () -> model.fill(node, w, n));
             case 5 -> {
                 int length = random.nextBoolean() ? random.nextInt(30) : random.nextInt(2001);
                 int seed = random.nextInt(256);
-                both(where + " contents", () -> told(() -> yard.contents(node, length, seed)),
+                both(where + " contents", t -> told(() -> t.contents(node, length, seed)),
                         () -> told(() -> model.contents(node, length, seed)));
             }
             case 6 -> {
                 int mode = random.nextInt(4096);
                 int owner = random.nextInt(2097152);
                 int time = random.nextInt(Integer.MAX_VALUE);
-                both(where + " set", () -> told(() -> yard.set(node, mode, owner, time)),
+                both(where + " set", t -> told(() -> t.set(node, mode, owner, time)),
                         () -> told(() -> model.set(node, mode, owner, time)));
             }
             default -> {
                 if (random.nextInt(4) == 0) {
-                    both(where + " remove", () -> yard.remove(node), () -> model.remove(node));
+                    both(where + " remove", t -> t.remove(node), () -> model.remove(node));
                 }
             }
         }
@@ -92,34 +98,34 @@ public final class RandomRunsTest {
         int i = block * 512 + (random.nextInt(3) > 0 ? FIELDS[random.nextInt(FIELDS.length)] : random.nextInt(512));
         int b = BYTES[random.nextInt(BYTES.length)];
         switch (random.nextInt(6)) {
-            case 0, 1 -> both(where + " write", yard::write, model::write);
+            case 0, 1 -> both(where + " write", TarYard::write, model::write);
             case 2 -> readBoth(where);
             case 3 -> {
                 int was = model.hand(i);
-                both(where + " alter", () -> yard.alter(i, b), () -> model.alter(i, b));
-                both(where + " check", () -> yard.check(block), () -> model.check(block));
+                both(where + " alter", t -> t.alter(i, b), () -> model.alter(i, b));
+                both(where + " check", t -> t.check(block), () -> model.check(block));
                 readBoth(where);
                 if (random.nextInt(3) > 0) {
-                    both(where + " alter", () -> yard.alter(i, was), () -> model.alter(i, was));
-                    both(where + " check", () -> yard.check(block), () -> model.check(block));
+                    both(where + " alter", t -> t.alter(i, was), () -> model.alter(i, was));
+                    both(where + " check", t -> t.check(block), () -> model.check(block));
                 }
             }
             case 4 -> {
-                both(where + " alter", () -> yard.alter(i, b), () -> model.alter(i, b));
+                both(where + " alter", t -> t.alter(i, b), () -> model.alter(i, b));
                 readBoth(where);
             }
             default -> {
                 int size = random.nextInt(4) > 0 ? model.total(1) + random.nextInt(1100) - 550 : random.nextInt(10300);
-                both(where + " size", () -> told(() -> yard.size(size)), () -> told(() -> model.size(size)));
+                both(where + " size", t -> told(() -> t.size(size)), () -> told(() -> model.size(size)));
                 readBoth(where);
             }
         }
     }
 
     private void readBoth(String where) {
-        both(where + " read", yard::read, model::read);
-        both(where + " place", yard::place, model::place);
-        both(where + " total(2)", () -> yard.total(2), () -> model.total(2));
+        both(where + " read", TarYard::read, model::read);
+        both(where + " place", TarYard::place, model::place);
+        both(where + " total(2)", t -> t.total(2), () -> model.total(2));
     }
 
     private void oddStep(String where) {
@@ -129,19 +135,19 @@ public final class RandomRunsTest {
         int d = NUMBERS[random.nextInt(NUMBERS.length)];
         long w = random.nextBoolean() ? random.nextLong() : word();
         switch (random.nextInt(13)) {
-            case 0 -> both(where + " make", () -> yard.make(a, b, w, c, d), () -> model.make(a, b, w, c, d));
-            case 1 -> both(where + " rename", () -> yard.rename(a, w, b), () -> model.rename(a, w, b));
-            case 2 -> both(where + " fill", () -> yard.fill(a, w, b), () -> model.fill(a, w, b));
-            case 3 -> both(where + " contents", () -> told(() -> yard.contents(a, c, d)), () -> told(() -> model.contents(a, c, d)));
-            case 4 -> both(where + " set", () -> told(() -> yard.set(a, b, c, d)), () -> told(() -> model.set(a, b, c, d)));
-            case 5 -> both(where + " remove", () -> yard.remove(a), () -> model.remove(a));
-            case 6 -> both(where + " alter", () -> yard.alter(a, c), () -> model.alter(a, c));
-            case 7 -> both(where + " check", () -> yard.check(a), () -> model.check(a));
-            case 8 -> both(where + " size", () -> told(() -> yard.size(a)), () -> told(() -> model.size(a)));
-            case 9 -> both(where + " hand", () -> yard.hand(a), () -> model.hand(a));
-            case 10 -> both(where + " node", () -> yard.node(a, b), () -> model.node(a, b));
-            case 11 -> both(where + " part", () -> yard.part(a, b, c), () -> model.part(a, b, c));
-            default -> both(where + " total", () -> yard.total(b), () -> model.total(b));
+            case 0 -> both(where + " make", t -> t.make(a, b, w, c, d), () -> model.make(a, b, w, c, d));
+            case 1 -> both(where + " rename", t -> t.rename(a, w, b), () -> model.rename(a, w, b));
+            case 2 -> both(where + " fill", t -> t.fill(a, w, b), () -> model.fill(a, w, b));
+            case 3 -> both(where + " contents", t -> told(() -> t.contents(a, c, d)), () -> told(() -> model.contents(a, c, d)));
+            case 4 -> both(where + " set", t -> told(() -> t.set(a, b, c, d)), () -> told(() -> model.set(a, b, c, d)));
+            case 5 -> both(where + " remove", t -> t.remove(a), () -> model.remove(a));
+            case 6 -> both(where + " alter", t -> t.alter(a, c), () -> model.alter(a, c));
+            case 7 -> both(where + " check", t -> t.check(a), () -> model.check(a));
+            case 8 -> both(where + " size", t -> told(() -> t.size(a)), () -> told(() -> model.size(a)));
+            case 9 -> both(where + " hand", t -> t.hand(a), () -> model.hand(a));
+            case 10 -> both(where + " node", t -> t.node(a, b), () -> model.node(a, b));
+            case 11 -> both(where + " part", t -> t.part(a, b, c), () -> model.part(a, b, c));
+            default -> both(where + " total", t -> t.total(b), () -> model.total(b));
         }
     }
 
@@ -150,7 +156,7 @@ public final class RandomRunsTest {
         for (int i = 0; i < 8; i++) {
             text.append(LETTERS.charAt(random.nextInt(random.nextInt(8) == 0 ? LETTERS.length() : 3)));
         }
-        return Yards.word(text.toString());
+        return Yard.word(text.toString());
     }
 
     private static int told(Runnable call) {
@@ -158,8 +164,8 @@ public final class RandomRunsTest {
         return 0;
     }
 
-    private void both(String call, IntSupplier ofYard, IntSupplier ofModel) {
-        long got = answer(ofYard);
+    private void both(String call, ToIntFunction<TarYard> ofYard, IntSupplier ofModel) {
+        long got = answer(() -> yard.call(ofYard));
         long due = answer(ofModel);
         same = same && got == due;
         Expect.same(call, got, due);
@@ -177,29 +183,33 @@ public final class RandomRunsTest {
         }
     }
 
-    /** The name of a call is put together only where its answers differ: there are very many calls here. */
-    private void compareStates(String run) {
-        for (int node = 0; node < model.total(0); node++) {
-            for (int what = 0; what < 8; what++) {
-                compare(run, "node", yard.node(node, what), model.node(node, what), node, what);
-            }
-            for (int what = 0; what < 2; what++) {
-                for (int i = -1; i < 2001; i++) {
-                    compare(run, "part", yard.part(node, what, i), model.part(node, what, i), node, what, i);
-                }
-            }
-        }
+    private void compareStates() {
         for (int what = 0; what < 3; what++) {
-            compare(run, "total", yard.total(what), model.total(what), what);
+            compare("total", yard.total(what), model.total(what), what);
         }
-        for (int i = -1; i < 10242; i++) {
-            compare(run, "hand", yard.hand(i), model.hand(i), i);
+        for (int node = 0; node < model.total(0) && same; node++) {
+            for (int what = 0; what < 8; what++) {
+                compare("node", yard.node(node, what), model.node(node, what), node, what);
+            }
+            comparePart(node, 0, model.node(node, 2));
+            comparePart(node, 1, model.node(node, 6));
+        }
+        for (int i = -1; i <= model.total(1) && same; i++) {
+            compare("hand", yard.hand(i), model.hand(i), i);
         }
     }
 
-    private static void compare(String run, String call, int got, int due, int... arguments) {
+    private void comparePart(int node, int what, int length) {
+        for (int i = -1; i <= length; i++) {
+            compare("part", yard.part(node, what, i), model.part(node, what, i), node, what, i);
+        }
+    }
+
+    /** The name of a call is put together only where its answers differ: there are very many calls here. */
+    private void compare(String call, int got, int due, int... arguments) {
         if (got != due) {
-            Expect.same(run + " " + call + Arrays.toString(arguments), got, due);
+            same = false;
+            Expect.same(call + Arrays.toString(arguments), got, due);
         }
     }
 }

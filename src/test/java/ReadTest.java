@@ -1,511 +1,281 @@
-/** Promise 9: what is read back, and each fault with its edges. */
+/** Promise 9: the tree that the bytes tell. */
 public final class ReadTest {
-    private static final int HEADER = 512;
-
     public static void main(String[] args) {
-        backAndForth();
-        theTreeStays();
-        faults1And2();
-        fault3();
-        fault4();
-        fault5();
-        fault6();
-        fault7();
-        partsOfAPath();
-        fault8();
-        faults9To11();
-        faultsInOrder();
-        freeOrder();
-        behindTheEnd();
-        allBlocksTaken();
+        Expect.holds("the tree becomes what they tell", "all that a node has", ReadTest::allThatANodeHas);
+        Expect.holds("the tree becomes what they tell", "what is least", ReadTest::least);
+        Expect.holds("the tree becomes what they tell", "what is most", ReadTest::most);
+        Expect.holds("the tree becomes what they tell", "in place of a larger one", ReadTest::inPlaceOfALargerOne);
+        Expect.holds("the tree becomes what they tell", "in place of a smaller one", ReadTest::inPlaceOfASmallerOne);
+        Expect.holds("the tree becomes what they tell", "and can be changed then", ReadTest::canBeChanged);
+        Expect.holds("the tree becomes what they tell", "written and read again", ReadTest::againAndAgain);
+        Expect.holds("the tree becomes what they tell", "the bytes are altered then", ReadTest::theTreeIsApart);
+        Expect.holds("nodes in the order of entries", "as they were written", ReadTest::orderOfWriting);
+        Expect.holds("nodes in the order of entries", "in another order", ReadTest::anotherOrder);
+        Expect.holds("nodes in the order of entries", "hard links before others", ReadTest::hardLinksBeforeOthers);
+        Expect.holds("how many with the root", ReadTest::howMany);
+        Expect.holds("or the FAULT, below 0; the tree stays then", ReadTest::theTreeStays);
+        Expect.holds("or the FAULT, below 0; the tree stays then", "behind good entries", ReadTest::behindGoodEntries);
+        Expect.holds("A block of zeros ends it, if the next is one too", ReadTest::theEnd);
+        Expect.holds("what comes behind is not looked at", ReadTest::behindTheEnd);
+        Expect.holds("the path (with both parts and 47 between, if there is a first one)", ReadTest::twoParts);
         Expect.done();
     }
 
-    /** A directory d in block 0, a file d/f of 3 bytes in blocks 1 and 2; then the end. */
-    private static TarYard small() {
-        TarYard yard = new TarYard();
-        int dir = Yards.make(yard, 0, Yards.DIRECTORY, "d");
-        int file = Yards.make(yard, dir, Yards.FILE, "f");
-        yard.contents(file, 3, 9);
-        yard.write();
+    private static void expectNode(Yard yard, int node, String name, int... due) {
+        Expect.text("name of " + node, yard.name(node), name);
+        for (int what = 0; what < due.length; what++) {
+            Expect.same("node(" + node + ", " + what + ")", yard.node(node, what), due[what]);
+        }
+    }
+
+    private static Yard withFiles(int count) {
+        Yard yard = new Yard();
+        for (int i = 0; i < count; i++) {
+            yard.make(0, Yard.FILE, 'a' + i, 1, 0);
+        }
         return yard;
     }
 
-    /** Reads with the file's header changed at one place, and mends it. */
-    private static void expectWith(String what, int i, int b, int due) {
-        TarYard yard = small();
-        yard.alter(HEADER + i, b);
-        yard.check(1);
-        Expect.same(what, yard.read(), due);
-    }
-
-    private static TarYard withText(int i, String text) {
-        TarYard yard = small();
-        Yards.alter(yard, HEADER + i, text);
-        yard.check(1);
-        return yard;
-    }
-
-    private static void expectText(String what, int i, String text, int due) {
-        Expect.same(what, withText(i, text).read(), due);
-    }
-
-    private static void backAndForth() {
-        TarYard yard = new TarYard();
-        int file = Yards.make(yard, 0, Yards.FILE, "z");
-        int dir = Yards.make(yard, 0, Yards.DIRECTORY, Yards.repeat('d', 80));
-        int soft = Yards.make(yard, dir, Yards.SYMBOLIC_LINK, Yards.repeat('s', 60));
-        Yards.make(yard, dir, Yards.HARD_LINK, "h", file);
-        Yards.make(yard, dir, Yards.FILE, "empty");
-        yard.contents(file, 2000, 100);
-        Yards.target(yard, soft, Yards.repeat('t', 100));
-        yard.set(file, 4095, 2097151, Integer.MAX_VALUE);
-        yard.set(dir, 1, 2, 3);
+    private static void allThatANodeHas() {
+        Yard yard = new Yard();
+        int file = yard.make(0, Yard.FILE, "z");
+        int dir = yard.make(0, Yard.DIRECTORY, "dir");
+        int soft = yard.make(dir, Yard.SYMBOLIC_LINK, "soft");
+        int hard = yard.make(dir, Yard.HARD_LINK, "hard", file);
+        yard.contents(file, 700, 100);
+        yard.fill(soft, "../z");
+        yard.set(file, 1, 2, 3);
+        yard.set(dir, 4, 5, 6);
+        yard.set(soft, 7, 8, 9);
+        yard.set(hard, 10, 11, 12);
         yard.write();
         yard.remove(dir);
-        Expect.same("nodes", yard.read(), 6);
-        Expect.same("place", yard.place(), TarYard.NONE);
-        String[] names = {"", Yards.repeat('d', 80), "empty", Yards.repeat('s', 60), "z", "h"};
-        int[] kinds = {0, 0, 1, 2, 1, 3};
-        int[] dirs = {-1, 0, 1, 1, 0, 1};
-        int[] lengths = {0, 0, 0, 100, 2000, 0};
-        int[] files = {-1, -1, -1, -1, -1, 4};
-        for (int i = 0; i < names.length; i++) {
-            Yards.expectText("name " + i, Yards.name(yard, i), names[i]);
-            Expect.same("kind " + i, yard.node(i, 0), kinds[i]);
-            Expect.same("directory " + i, yard.node(i, 1), dirs[i]);
-            Expect.same("length " + i, yard.node(i, 6), lengths[i]);
-            Expect.same("file " + i, yard.node(i, 7), files[i]);
+        Archive.expectNodes(yard, "read", 5);
+        expectNode(yard, 1, "dir", 0, 0, 3, 4, 5, 6, 0, -1);
+        expectNode(yard, 2, "soft", 2, 1, 4, 7, 8, 9, 4, -1);
+        expectNode(yard, 3, "z", 1, 0, 1, 1, 2, 3, 700, -1);
+        expectNode(yard, 4, "hard", 3, 1, 4, 10, 11, 12, 0, 3);
+        Expect.text("target", yard.body(2), "../z");
+        for (int i = 0; i < 700; i++) {
+            Expect.same("byte " + i, yard.part(3, 1, i), (100 + 31 * i) % 256);
         }
-        Yards.expectText("target", Yards.text(yard, 3, 1), Yards.repeat('t', 100));
-        for (int i = 0; i < 2000; i++) {
-            Expect.same("byte " + i, yard.part(4, 1, i), (100 + 31 * i) % 256);
+    }
+
+    private static void least() {
+        Yard yard = new Yard();
+        yard.make(0, Yard.FILE, "f");
+        yard.make(0, Yard.SYMBOLIC_LINK, "s");
+        yard.make(0, Yard.DIRECTORY, "d");
+        yard.write();
+        yard.remove(1);
+        Archive.expectNodes(yard, "read", 4);
+        expectNode(yard, 1, "d", 0, 0, 1, 0, 0, 0, 0, -1);
+        expectNode(yard, 2, "f", 1, 0, 1, 0, 0, 0, 0, -1);
+        expectNode(yard, 3, "s", 2, 0, 1, 0, 0, 0, 0, -1);
+    }
+
+    private static void most() {
+        Yard yard = new Yard();
+        String a = Yard.repeat('a', 90);
+        String b = Yard.repeat('b', 64);
+        String c = Yard.repeat('~', 100);
+        yard.make(0, Yard.DIRECTORY, a);
+        yard.make(1, Yard.DIRECTORY, b);
+        yard.make(2, Yard.FILE, c);
+        yard.make(2, Yard.SYMBOLIC_LINK, c.substring(1));
+        yard.contents(3, 2000, 255);
+        yard.fill(4, c);
+        yard.set(3, 4095, 2097151, Integer.MAX_VALUE);
+        yard.set(4, 4095, 2097151, Integer.MAX_VALUE);
+        yard.write();
+        yard.remove(1);
+        Archive.expectNodes(yard, "read", 5);
+        expectNode(yard, 1, a, 0, 0, 90, 0, 0, 0, 0, -1);
+        expectNode(yard, 2, b, 0, 1, 64, 0, 0, 0, 0, -1);
+        expectNode(yard, 3, c.substring(1), 2, 2, 99, 4095, 2097151, Integer.MAX_VALUE, 100, -1);
+        expectNode(yard, 4, c, 1, 2, 100, 4095, 2097151, Integer.MAX_VALUE, 2000, -1);
+        Expect.text("target", yard.body(3), c);
+        Expect.same("the last byte", yard.part(4, 1, 1999), 16);
+    }
+
+    private static void inPlaceOfALargerOne() {
+        Yard yard = withFiles(1);
+        yard.write();
+        for (int i = 2; i < 30; i++) {
+            yard.make(0, Yard.FILE, "n" + i);
+            yard.contents(i, 100 + i, i);
         }
-        Expect.same("mode", yard.node(4, 3), 4095);
-        Expect.same("owner", yard.node(4, 4), 2097151);
-        Expect.same("time", yard.node(4, 5), Integer.MAX_VALUE);
-        Expect.same("mode of the directory", yard.node(1, 3), 1);
-        Expect.same("owner of the directory", yard.node(1, 4), 2);
-        Expect.same("time of the directory", yard.node(1, 5), 3);
-        String once = Yards.state(yard);
+        Archive.expectNodes(yard, "read", 2);
+        Expect.refused(yard, "node 2", y -> y.node(2, 0));
+        Expect.same("the longest path", yard.total(2), 1);
+        Expect.same("a name of the other tree is free", yard.make(0, Yard.FILE, "n2"), 2);
+        Expect.same("it has no contents", yard.node(2, 6), 0);
+    }
+
+    private static void inPlaceOfASmallerOne() {
+        Yard yard = withFiles(18);
+        yard.write();
+        yard.contents(3, 50, 1);
+        for (int i = 18; i > 3; i--) {
+            yard.remove(i);
+        }
+        Archive.expectNodes(yard, "read", 19);
+        expectNode(yard, 18, "r", 1, 0, 1, 0, 0, 0, 0, -1);
+        expectNode(yard, 3, "c", 1, 0, 1, 0, 0, 0, 0, -1);
+    }
+
+    private static void canBeChanged() {
+        Archive archive = new Archive();
+        Yard yard = archive.yard;
+        yard.read();
+        Expect.same("a hard link of a file that was read", yard.make(1, Yard.HARD_LINK, "h", 2), 3);
+        Expect.refused(yard, "a name that was read", y -> y.make(1, Yard.FILE, 'f', 1, 0));
+        Expect.same("more contents", yard.fill(2, 'x', 1), 4);
+        Expect.text("contents", yard.body(2), "\u0009\u0028\u0047x");
+        Expect.same("a longer name", yard.rename(1, 'e', 1), 2);
+        Expect.same("all gone", yard.remove(1), 3);
+    }
+
+    private static void againAndAgain() {
+        Yard yard = new Yard();
+        int file = yard.make(0, Yard.FILE, "z");
+        int dir = yard.make(0, Yard.DIRECTORY, Yard.repeat('d', 80));
+        yard.make(dir, Yard.SYMBOLIC_LINK, Yard.repeat('s', 60));
+        yard.make(dir, Yard.HARD_LINK, "h", file);
+        yard.contents(file, 600, 3);
         yard.write();
         yard.read();
-        Yards.expectText("once more", Yards.state(yard), once);
-        Expect.same("the tree can be changed", Yards.make(yard, 1, Yards.HARD_LINK, "i", 4), 6);
+        String once = yard.state();
+        yard.write();
+        yard.read();
+        Expect.text("once more", yard.state(), once);
+        yard.read();
+        Expect.text("only read once more", yard.state(), once);
+    }
+
+    private static void theTreeIsApart() {
+        Archive archive = new Archive();
+        archive.yard.read();
+        String tree = archive.yard.tree();
+        archive.yard.alter(Archive.HEADER, 'x');
+        archive.yard.alter(Archive.CONTENTS, 'x');
+        archive.yard.size(0);
+        Expect.text("the tree", archive.yard.tree(), tree);
+    }
+
+    private static void orderOfWriting() {
+        Yard yard = new Yard();
+        int file = yard.make(0, Yard.FILE, "z");
+        yard.make(0, Yard.HARD_LINK, "a", file);
+        int dir = yard.make(0, Yard.DIRECTORY, "d");
+        yard.make(dir, Yard.FILE, "y");
+        yard.make(dir, Yard.FILE, "x");
+        yard.write();
+        Expect.same("nodes", yard.read(), 6);
+        String[] names = {"d", "x", "y", "z", "a"};
+        for (int i = 0; i < names.length; i++) {
+            Expect.text("node " + (i + 1), yard.name(i + 1), names[i]);
+        }
+        Expect.same("file of the link", yard.node(5, 7), 4);
+    }
+
+    private static void anotherOrder() {
+        Yard yard = withFiles(3);
+        yard.make(0, Yard.DIRECTORY, "d");
+        yard.make(4, Yard.FILE, "e");
+        yard.write();
+        yard.alter(0, 'z');
+        yard.check(0);
+        yard.alter(4 * 512, "y\0\0");
+        yard.check(4);
+        yard.alter(512, "B");
+        yard.check(1);
+        Archive.expectNodes(yard, "read", 6);
+        String[] names = {"z", "B", "c", "d", "y"};
+        for (int i = 0; i < names.length; i++) {
+            Expect.text("node " + (i + 1), yard.name(i + 1), names[i]);
+        }
+        Expect.same("kind of d", yard.node(4, 0), Yard.DIRECTORY);
+    }
+
+    private static void hardLinksBeforeOthers() {
+        Yard yard = withFiles(2);
+        yard.make(0, Yard.SYMBOLIC_LINK, "c");
+        yard.write();
+        yard.alter(512 + 156, 49);
+        yard.alter(512 + 157, 'a');
+        yard.check(1);
+        Archive.expectNodes(yard, "read", 4);
+        expectNode(yard, 2, "b", 3, 0, 1, 0, 0, 0, 0, 1);
+        expectNode(yard, 3, "c", 2, 0, 1, 0, 0, 0, 0, -1);
+    }
+
+    private static void howMany() {
+        for (int files : new int[] {0, 1, 2, 17, 18}) {
+            Yard yard = withFiles(files);
+            yard.write();
+            Archive.expectNodes(yard, "files " + files, files + 1);
+        }
     }
 
     private static void theTreeStays() {
-        TarYard yard = small();
+        Archive archive = new Archive();
+        archive.yard.alter(Archive.HEADER, 0);
+        archive.expectFault("a fault", 3);
+        expectNode(archive.yard, 1, "other", 1, 0, 5, 0, 0, 0, 5, -1);
+        expectNode(archive.yard, 0, "", 0, -1, 0, 4, 5, 6, 0, -1);
+        Expect.same("nodes", archive.yard.total(0), 2);
+    }
+
+    private static void behindGoodEntries() {
+        Yard yard = withFiles(18);
+        yard.write();
         yard.remove(1);
-        int other = Yards.make(yard, 0, Yards.FILE, "other");
-        yard.contents(other, 5, 5);
-        yard.set(0, 1, 2, 3);
-        yard.alter(HEADER, 0);
-        Expect.same("fault", yard.read(), -3);
-        Expect.same("nodes", yard.total(0), 2);
-        Yards.expectText("name", Yards.name(yard, 1), "other");
-        Expect.same("length", yard.node(1, 6), 5);
-        Expect.same("byte 4", yard.part(1, 1, 4), 5 + 31 * 4);
-        Expect.same("root's mode", yard.node(0, 3), 1);
-        Expect.same("bytes", yard.total(1), 5 * 512);
+        yard.contents(1, 9, 9);
+        yard.alter(17 * 512, 'a');
+        yard.check(17);
+        Archive.expectFault(yard, "the name of the first", 7, 17);
+        yard.alter(17 * 512, 'A');
+        yard.check(17);
+        Archive.expectNodes(yard, "another one", 19);
     }
 
-    private static void faults1And2() {
-        TarYard yard = small();
-        int[] sizes = {0, 1, 511, 1536, 1537, 2047, 2048, 2049, 2559, 2560, 2561, 10240};
-        int[] dues = {-1, -1, -1, -1, -1, -1, -2, -2, -2, 3, 3, 3};
-        int[] places = {0, 0, 0, 3, 3, 3, 3, 3, 3, -1, -1, -1};
-        for (int k = 0; k < sizes.length; k++) {
-            yard.size(2560);
-            yard.write();
-            yard.size(sizes[k]);
-            Expect.same("of " + sizes[k] + " bytes", yard.read(), dues[k]);
-            Expect.same("place of " + sizes[k], yard.place(), places[k]);
+    private static void theEnd() {
+        Yard none = new Yard();
+        none.make(0, Yard.FILE, "f");
+        none.size(1024);
+        Archive.expectNodes(none, "at once", 1);
+        Yard few = withFiles(2);
+        few.write();
+        few.make(0, Yard.FILE, "z");
+        Archive.expectNodes(few, "behind two entries", 3);
+        Yard contents = withFiles(1);
+        for (int i = 0; i < 128; i++) {
+            contents.fill(1, 0, 8);
         }
-        yard.size(2560);
-        yard.alter(2048, 1);
-        Expect.same("the second is not zeros", yard.read(), -2);
-        yard.alter(2048, 0);
-        yard.alter(2559, 1);
-        Expect.same("the last byte of the second", yard.read(), -2);
-        yard.alter(2559, 0);
-        yard.alter(2047, 1);
-        Expect.same("the last byte of the first", yard.read(), -3);
-    }
-
-    private static void fault3() {
-        TarYard yard = small();
-        for (int i = 148; i < 156; i++) {
-            int was = yard.alter(HEADER + i, i < 154 ? '9' : 48);
-            Expect.same("byte " + i, yard.read(), -3);
-            Expect.same("place", yard.place(), 1);
-            yard.alter(HEADER + i, was);
-        }
-        int digit = yard.alter(HEADER + 153, 48 + (yard.hand(HEADER + 153) - 47) % 8);
-        Expect.same("another sum", yard.read(), -3);
-        yard.alter(HEADER + 153, digit);
-        yard.alter(HEADER + 148, 32);
-        Expect.same("a blank for a digit 48", yard.read(), -3);
-        yard.alter(HEADER + 148, 48);
-        Expect.same("as it was", yard.read(), 3);
-        yard.alter(HEADER + 511, 1);
-        Expect.same("the check comes first", yard.read(), -3);
-        highBytes();
-    }
-
-    private static void highBytes() {
-        TarYard yard = small();
-        yard.alter(HEADER + 5, 255);
-        yard.check(1);
-        Expect.same("bytes are summed as 0 .. 255", yard.read(), -7);
-    }
-
-    private static void fault4() {
-        for (int i = 257; i < 329; i++) {
-            expectWith("byte " + i, i, 1, -4);
-        }
-        expectWith("version", 263, 32, -4);
-        for (int i = 500; i < 512; i++) {
-            expectWith("byte " + i, i, 1, -4);
-        }
-    }
-
-    private static void fault5() {
-        int[] starts = {100, 108, 116, 124, 136, 329, 337};
-        int[] ends = {107, 115, 123, 135, 147, 336, 344};
-        for (int k = 0; k < starts.length; k++) {
-            for (int i = starts[k]; i < ends[k]; i++) {
-                expectWith("digit 8 at " + i, i, 56, -5);
-                expectWith("47 at " + i, i, 47, -5);
-                expectWith("zero at " + i, i, 0, -5);
-                expectWith("blank at " + i, i, 32, -5);
-            }
-            expectWith("no zero at " + ends[k], ends[k], 32, -5);
-            expectWith("digit at " + ends[k], ends[k], 48, -5);
-        }
-        for (int k : new int[] {2, 5, 6}) {
-            expectText("any number at " + starts[k], starts[k], "7654321", 3);
-        }
-        expectText("mode 4095", 100, "0007777", 3);
-        expectText("mode 4096", 100, "0010000", -5);
-        expectText("mode of 7 digits", 100, "7777777", -5);
-        expectText("owner", 108, "7777777", 3);
-        expectText("time 2147483647", 136, "17777777777", 3);
-        expectText("time 2147483648", 136, "20000000000", -5);
-        expectText("time 4294967296", 136, "40000000000", -5);
-        expectText("time of 11 digits", 136, "77777777777", -5);
-        TarYard yard = withText(136, "17777777777");
-        yard.read();
-        Expect.same("time", yard.node(2, 5), Integer.MAX_VALUE);
-    }
-
-    private static void fault6() {
-        for (int type : new int[] {0, 1, 47, 51, 52, 54, 55, 103, 120, 255}) {
-            expectWith("type " + type, 156, type, -6);
-        }
-        for (int type : new int[] {49, 50, 53}) {
-            expectWith("with contents " + type, 156, type, -6);
-        }
-        TarYard yard = small();
-        Yards.alter(yard, 124, "40000000000");
-        yard.check(0);
-        Expect.same("a directory with 4294967296 bytes", yard.read(), -6);
-        Expect.same("its place", yard.place(), 0);
-    }
-
-    private static void fault7() {
-        expectText("as it is", 0, "d/f", 3);
-        expectWith("behind the first zero", 4, 'x', -7);
-        expectWith("at the end of the second part", 99, 'x', -7);
-        expectWith("at the end of the first part", 499, 'x', -7);
-        expectWith("behind the zero of the first part", 346, 'x', -7);
-        for (int letter : new int[] {1, 32, 127, 128, 255}) {
-            expectWith("letter " + letter, 2, letter, -7);
-        }
-        expectText("of no length", 0, "\u0000\u0000\u0000", -7);
-        expectText("a dot", 0, "d/.", -7);
-        expectText("two dots", 0, "d/..", -7);
-        expectText("three dots", 0, "d/...", 3);
-        expectText("the way back", 0, "d/../f", -7);
-        expectText("a dot on the way", 0, "./f", -7);
-        expectText("an empty name", 0, "d//f", -7);
-        expectText("from the root", 0, "/d/f", -7);
-        expectText("only 47", 0, "/\u0000\u0000", -7);
-        expectText("a file that ends in 47", 0, "d/f/", -7);
-        expectText("the directory once more", 0, "d\u0000\u0000", -7);
-        expectText("no such directory", 0, "e/f", -7);
-        expectText("in the root", 0, "e\u0000\u0000", 3);
-        expectText("in the root, of 100", 0, Yards.repeat('e', 100), 3);
-        directories();
-        inAFile();
-        twice();
-    }
-
-    private static void directories() {
-        TarYard yard = small();
-        yard.alter(1, 'e');
-        yard.check(0);
-        Expect.same("a directory that does not end in 47", yard.read(), -7);
-        Expect.same("its place", yard.place(), 0);
-        TarYard bare = small();
-        Yards.alter(bare, 0, "/\u0000");
-        bare.check(0);
-        Expect.same("the root itself", bare.read(), -7);
-        TarYard doubled = small();
-        Yards.alter(doubled, 0, "d//");
-        doubled.check(0);
-        Expect.same("ends in two 47", doubled.read(), -7);
-        TarYard link = small();
-        Yards.alter(link, 512, "d/f/");
-        link.alter(512 + 156, 50);
-        Yards.alter(link, 512 + 124, "00000000000");
-        link.check(1);
-        Expect.same("a link that ends in 47", link.read(), -7);
-    }
-
-    private static void inAFile() {
-        TarYard yard = new TarYard();
-        Yards.make(yard, 0, Yards.FILE, "a");
-        Yards.make(yard, 0, Yards.FILE, "b");
-        yard.write();
-        Yards.alter(yard, 512, "a/b");
-        yard.check(1);
-        Expect.same("in a file", yard.read(), -7);
-        Expect.same("its place", yard.place(), 1);
-    }
-
-    private static void twice() {
-        TarYard yard = new TarYard();
-        Yards.make(yard, 0, Yards.FILE, "a");
-        Yards.make(yard, 0, Yards.SYMBOLIC_LINK, "b");
-        yard.write();
-        yard.alter(512, 'a');
-        yard.check(1);
-        Expect.same("a node of that name", yard.read(), -7);
-        yard.alter(512, 'c');
-        yard.check(1);
-        Expect.same("another name", yard.read(), 3);
-    }
-
-    private static void partsOfAPath() {
-        TarYard cut = small();
-        Yards.alter(cut, HEADER, "f\u0000\u0000");
-        Yards.alter(cut, HEADER + 345, "d");
-        cut.check(1);
-        Expect.same("a short path in two parts", cut.read(), 3);
-        Expect.same("lies in d", cut.node(2, 1), 1);
-        Yards.expectText("name", Yards.name(cut, 2), "f");
-        Yards.alter(cut, HEADER + 345, "d/");
-        cut.check(1);
-        Expect.same("47 twice", cut.read(), -7);
-        Yards.alter(cut, HEADER + 345, "/d");
-        cut.check(1);
-        Expect.same("47 first", cut.read(), -7);
-        TarYard only = small();
-        Yards.alter(only, 0, "\u0000\u0000");
-        Yards.alter(only, 345, "d");
-        only.check(0);
-        Expect.same("a directory with a first part alone", only.read(), 3);
-        Yards.alter(only, 345, Yards.repeat('x', 100));
-        only.check(0);
-        Expect.same("then another one is not there", only.read(), -7);
-        Expect.same("which is at", only.place(), 1);
-        Yards.alter(only, 345, Yards.repeat('x', 101));
-        only.check(0);
-        Expect.same("a name of 101", only.read(), -7);
-        Expect.same("which is also at", only.place(), 0);
-        TarYard none = small();
-        Yards.alter(none, HEADER, "\u0000\u0000\u0000");
-        Yards.alter(none, HEADER + 345, "f");
-        none.check(1);
-        Expect.same("a file with a first part alone", none.read(), -7);
-    }
-
-    /** A file f in block 0; a link to it or to other things in block 1. */
-    private static int readLink(int kind, String target) {
-        TarYard yard = new TarYard();
-        int dir = Yards.make(yard, 0, Yards.DIRECTORY, "d");
-        int file = Yards.make(yard, dir, Yards.FILE, "f");
-        Yards.make(yard, 0, kind, "h", file);
-        yard.write();
-        Yards.alter(yard, 1024 + 157, target);
-        yard.check(2);
-        int answer = yard.read();
-        Expect.same("place of " + target, yard.place(), answer < 0 ? 2 : TarYard.NONE);
-        if (answer > 0 && kind == Yards.HARD_LINK) {
-            Expect.same("file of " + target, yard.node(3, 7), 2);
-        }
-        if (answer > 0 && kind == Yards.SYMBOLIC_LINK) {
-            Yards.expectText("target", Yards.text(yard, 3, 1), target);
-        }
-        return answer;
-    }
-
-    private static void fault8() {
-        expectWith("a target of a file", 157, 'x', -8);
-        expectWith("a target of a file behind a zero", 158, 'x', -8);
-        expectWith("at the end of a target", 256, 'x', -8);
-        TarYard yard = small();
-        yard.alter(157, 'x');
-        yard.check(0);
-        Expect.same("a target of a directory", yard.read(), -8);
-        Expect.same("a link with any characters", readLink(2, "!/..//~"), 4);
-        Expect.same("a link of 100", readLink(2, Yards.repeat('~', 100)), 4);
-        Expect.same("a link of none", readLink(2, ""), 4);
-        for (String target : new String[] {"a b", "\u0001", "\u007f", "\u0080", "\u00ff", "a\u0000b", "\u0000a", " "}) {
-            Expect.same("a link with " + target, readLink(2, target), -8);
-        }
-        Expect.same("a hard link", readLink(3, "d/f"), 4);
-        for (String target : new String[] {"\u0000\u0000\u0000", "d\u0000\u0000", "d/\u0000", "d/g", "f\u0000\u0000", "d/f/", "/d/f",
-            "d//f", "d/f\u0000x", "d/ff", "h\u0000\u0000", "d/./f", "d/f/f"}) {
-            Expect.same("a hard link to " + target, readLink(3, target), -8);
-        }
-        hardLinksOfOthers();
-    }
-
-    private static void hardLinksOfOthers() {
-        TarYard yard = new TarYard();
-        int file = Yards.make(yard, 0, Yards.FILE, "f");
-        Yards.make(yard, 0, Yards.SYMBOLIC_LINK, "s");
-        Yards.make(yard, 0, Yards.HARD_LINK, "x", file);
-        Yards.make(yard, 0, Yards.HARD_LINK, "y", file);
-        yard.write();
-        Expect.same("as it is", yard.read(), 5);
-        yard.alter(3 * 512 + 157, 'x');
-        yard.check(3);
-        Expect.same("of a hard link", yard.read(), -8);
-        yard.alter(3 * 512 + 157, 's');
-        yard.check(3);
-        Expect.same("of a symbolic link", yard.read(), -8);
-        Expect.same("place", yard.place(), 3);
-        TarYard early = new TarYard();
-        int late = Yards.make(early, 0, Yards.FILE, "f");
-        Yards.make(early, 0, Yards.HARD_LINK, "h", late);
-        early.write();
-        swapBlocks(early, 0, 1);
-        Expect.same("of a file that comes later", early.read(), -8);
-        Expect.same("its place", early.place(), 0);
-    }
-
-    private static void swapBlocks(TarYard yard, int one, int other) {
-        for (int i = 0; i < 512; i++) {
-            int was = yard.hand(one * 512 + i);
-            yard.alter(one * 512 + i, yard.hand(other * 512 + i));
-            yard.alter(other * 512 + i, was);
-        }
-    }
-
-    private static void faults9To11() {
-        expectText("2001", 124, "00000003721", -9);
-        expectText("2000, but not there", 124, "00000003720", -10);
-        expectText("very long", 124, "77777777777", -9);
-        expectText("4294967296", 124, "40000000000", -9);
-        expectText("no contents", 124, "00000000000", -3);
-        expectText("3 blocks, all there, but then no more", 124, "00000003000", -1);
-        expectText("4 blocks", 124, "00000003001", -10);
-        TarYard yard = small();
-        yard.size(1535);
-        Expect.same("a byte is missing", yard.read(), -10);
-        Expect.same("place", yard.place(), 1);
-        yard.write();
-        for (int i = 3; i < 512; i++) {
-            yard.alter(1024 + i, 1);
-            Expect.same("behind the contents at " + i, yard.read(), -11);
-            Expect.same("place", yard.place(), 1);
-            yard.alter(1024 + i, 0);
-        }
-        Expect.same("as it was", yard.read(), 3);
-        wholeBlocks();
-    }
-
-    private static void wholeBlocks() {
-        TarYard yard = new TarYard();
-        int file = Yards.make(yard, 0, Yards.FILE, "f");
-        yard.contents(file, 1024, 1);
-        yard.write();
-        Expect.same("nothing behind whole blocks", yard.read(), 2);
-        Expect.same("last byte", yard.part(1, 1, 1023), (1 + 31 * 1023) % 256);
-        Yards.alter(yard, 124, "00000001777");
-        yard.check(0);
-        Expect.same("a byte less", yard.read(), -11);
-    }
-
-    /** Each fault hides those behind it. */
-    private static void faultsInOrder() {
-        TarYard yard = small();
-        yard.alter(1024 + 3, 1);
-        expectAndGoOn(yard, -11);
-        Yards.alter(yard, HEADER + 124, "00000003720");
-        expectAndGoOn(yard, -10);
-        Yards.alter(yard, HEADER + 124, "00000003721");
-        expectAndGoOn(yard, -9);
-        yard.alter(HEADER + 157, 'x');
-        expectAndGoOn(yard, -8);
-        yard.alter(HEADER, '/');
-        expectAndGoOn(yard, -7);
-        yard.alter(HEADER + 156, 'x');
-        expectAndGoOn(yard, -6);
-        yard.alter(HEADER + 100, 'x');
-        expectAndGoOn(yard, -5);
-        yard.alter(HEADER + 257, 'x');
-        expectAndGoOn(yard, -4);
-        yard.alter(HEADER + 155, 'x');
-        Expect.same("fault", yard.read(), -3);
-    }
-
-    private static void expectAndGoOn(TarYard yard, int due) {
-        yard.check(1);
-        Expect.same("fault", yard.read(), due);
-    }
-
-    /** Entries need not stand in the order in which they would be written. */
-    private static void freeOrder() {
-        TarYard yard = new TarYard();
-        Yards.make(yard, 0, Yards.FILE, "a");
-        Yards.make(yard, 0, Yards.FILE, "b");
-        int dir = Yards.make(yard, 0, Yards.DIRECTORY, "c");
-        Yards.make(yard, dir, Yards.FILE, "d");
-        yard.write();
-        swapBlocks(yard, 0, 2);
-        Expect.same("nodes", yard.read(), 5);
-        String[] names = {"", "c", "b", "a", "d"};
-        for (int i = 1; i < names.length; i++) {
-            Yards.expectText("name " + i, Yards.name(yard, i), names[i]);
-        }
-        swapBlocks(yard, 0, 3);
-        Expect.same("a directory that comes later", yard.read(), -7);
+        contents.write();
+        Archive.expectNodes(contents, "not in contents", 2);
+        Expect.same("which are of zeros", contents.node(1, 6), 1024);
     }
 
     private static void behindTheEnd() {
-        TarYard yard = small();
-        yard.size(4000);
-        for (int i = 2560; i < 4000; i++) {
-            yard.alter(i, 7);
+        for (int size : new int[] {2561, 3071, 3072, 3073, 10240}) {
+            Archive archive = new Archive().cutTo(size);
+            archive.yard.alter(2560, 7);
+            archive.yard.alter(size - 1, 7);
+            archive.expectBoth("of " + size + " bytes");
         }
-        Expect.same("what comes behind is not looked at", yard.read(), 3);
-        yard.size(1024);
-        for (int i = 0; i < 1024; i++) {
-            yard.alter(i, 0);
-        }
-        Expect.same("the root alone", yard.read(), 1);
-        Expect.same("nodes", yard.total(0), 1);
+        Archive archive = new Archive().cutTo(3072);
+        archive.yard.alter(2560, archive.yard.bytes(512, 512));
+        archive.expectBoth("an entry that is there already");
     }
 
-    private static void allBlocksTaken() {
-        TarYard yard = new TarYard();
-        for (int i = 0; i < 18; i++) {
-            yard.make(0, Yards.FILE, 'a' + i, 1, 0);
-        }
-        yard.write();
-        Expect.same("18 entries", yard.read(), 19);
-        for (int block = 18; block < 20; block++) {
-            for (int i = 0; i < 512; i++) {
-                yard.alter(block * 512 + i, yard.hand(i));
-            }
-            yard.alter(block * 512, 'A' + block);
-            yard.check(block);
-        }
-        Expect.same("20 entries and no end", yard.read(), -1);
-        Expect.same("place", yard.place(), 20);
+    private static void twoParts() {
+        Archive archive = new Archive().with(0, "f\0\0").with(345, "d");
+        archive.expectBoth("a short path in two parts");
+        expectNode(archive.yard, 2, "f", 1, 1, 1, 1, 2, 3, 3, -1);
+        Archive only = new Archive().withDirectory(0, "\0\0").withDirectory(345, "d");
+        only.expectBoth("a directory with a first part alone");
+        expectNode(only.yard, 1, "d", 0, 0, 1, 0, 0, 0, 0, -1);
     }
 }

@@ -7,22 +7,27 @@ public final class RoomTest {
     private static final ThreadMXBean THREADS = (ThreadMXBean) ManagementFactory.getThreadMXBean();
 
     public static void main(String[] args) {
-        run();
-        long before = THREADS.getCurrentThreadAllocatedBytes();
-        run();
-        long made = THREADS.getCurrentThreadAllocatedBytes() - before;
-        Expect.same("a run that makes " + made + " bytes is small", made <= MOST_BYTES ? 1 : 0, 1);
+        Expect.holds("An object is used for at most 512 calls", "what they make", RoomTest::whatARunMakes);
         Expect.done();
     }
 
+    private static void whatARunMakes() {
+        run();
+        long before = THREADS.getCurrentThreadAllocatedBytes();
+        int calls = run();
+        long made = THREADS.getCurrentThreadAllocatedBytes() - before;
+        Expect.same("a run that makes " + made + " bytes is small", made <= MOST_BYTES ? 1 : 0, 1);
+        Expect.same("a run of " + calls + " calls is a full one", calls > 500 && calls <= 512 ? 1 : 0, 1);
+    }
+
     /** Fills two trees to the brim, then writes, reads, removes and makes as often as the document allows. */
-    private static void run() {
+    private static int run() {
         TarYard yard = new TarYard();
-        int calls = fillUp(yard);
+        int calls = fillUp(yard, 1);
         yard.write();
         yard.read();
-        calls += 2 + fillUp(yard);
-        while (calls < 512 - 8) {
+        calls += 2 + fillUp(yard, 4);
+        while (calls < 512 - 7) {
             yard.write();
             yard.read();
             yard.remove(1);
@@ -32,16 +37,18 @@ public final class RoomTest {
             yard.size(10240);
             calls += 7;
         }
+        return calls;
     }
 
-    private static int fillUp(TarYard yard) {
+    /** From so many nodes to 30, and down to 4 again. */
+    private static int fillUp(TarYard yard, int nodes) {
         int calls = 0;
-        while (yard.total(0) < 30) {
-            int file = yard.make(0, 1, '0' + yard.total(0), 1, 0);
+        for (int i = nodes; i < 30; i++) {
+            int file = yard.make(0, 1, '0' + i, 1, 0);
             yard.contents(file, 2000, 5);
             calls += 2;
         }
-        while (yard.total(0) > 4) {
+        for (int i = 30; i > 4; i--) {
             yard.remove(4);
             calls++;
         }

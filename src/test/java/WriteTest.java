@@ -1,258 +1,334 @@
-/** Promise 8. */
+/** Promise 8 and WRITING: which entries, in which order, in how many blocks. */
 public final class WriteTest {
     public static void main(String[] args) {
-        header();
-        targets();
-        contentsInBlocks();
-        order();
-        whatIsGoneIsNotWritten();
-        cutPaths();
-        uncuttablePaths();
-        longFilesOfHardLinks();
-        tooManyBlocks();
+        Expect.holds("ENTRIES of all nodes but the root", "the root alone", WriteTest::theRootAlone);
+        Expect.holds("ENTRIES of all nodes but the root", "as many as there is room for", WriteTest::eighteenEntries);
+        Expect.holds("ENTRIES of all nodes but the root", "not of what is gone", WriteTest::whatIsGone);
+        Expect.holds("by the first character that is another one", "the first of a name", WriteTest::firstCharacter);
+        Expect.holds("by the first character that is another one", "the last of 100", WriteTest::lastCharacter);
+        Expect.holds("by the first character that is another one", "not the ones behind it", WriteTest::charactersBehind);
+        Expect.holds("a name that another one begins with is before that", WriteTest::beginnings);
+        Expect.holds("those of a directory right behind it", WriteTest::rightBehindIt);
+        Expect.holds("those of a directory right behind it", "whatever their names are", WriteTest::namesNotPaths);
+        Expect.holds("those of a directory right behind it", "one in another", WriteTest::oneInAnother);
+        Expect.holds("but hard links behind all others, in the order in which they would have come", WriteTest::hardLinks);
+        Expect.holds("Then two blocks of zeros", WriteTest::twoBlocksOfZeros);
+        Expect.holds("in as many blocks as they need, with zeros behind", WriteTest::contentsInBlocks);
+        Expect.holds("in as many blocks as they need", "none of links and directories", WriteTest::noContents);
+        Expect.holds("in place of the bytes at hand", "of more", WriteTest::inPlaceOfMore);
+        Expect.holds("in place of the bytes at hand", "of fewer", WriteTest::inPlaceOfFewer);
+        Expect.holds("how many blocks", WriteTest::howMany);
+        Expect.holds("there would be more than 20 blocks", "20", WriteTest::twentyBlocks);
+        Expect.holds("there would be more than 20 blocks", "21 by an entry", WriteTest::oneEntryMore);
+        Expect.holds("there would be more than 20 blocks", "21 by a byte", WriteTest::oneByteMore);
+        Expect.holds("there would be more than 20 blocks", "the most that a tree can need", WriteTest::theLargestTree);
+        Expect.holds("a hard link's file has a path longer than 100", "100", WriteTest::linkOfHundred);
+        Expect.holds("a hard link's file has a path longer than 100", "101", WriteTest::linkOfHundredAndOne);
+        Expect.holds("A call that throws changes nothing", WriteTest::nothingChanges);
+        Expect.holds("The tree is WRITTEN", "and stays", WriteTest::theTreeStays);
         Expect.done();
     }
 
-    private static String header(String path, String numbers, int type, String target, String first) {
-        String before = padded(path, 100) + numbers;
-        String behind = (char) type + padded(target, 100) + "ustar\u000000" + padded("", 64)
-                + "0000000\u0000" + "0000000\u0000" + padded(first, 155) + padded("", 12);
-        int sum = 8 * 32 + before.chars().sum() + behind.chars().sum();
-        return before + padded("", 6 - Integer.toOctalString(sum).length()).replace('\u0000', '0')
-                + Integer.toOctalString(sum) + "\u0000 " + behind;
-    }
-
-    private static String padded(String text, int length) {
-        return text + "\u0000".repeat(length - text.length());
-    }
-
-    private static String block(TarYard yard, int block) {
-        StringBuilder text = new StringBuilder();
-        for (int i = 0; i < 512; i++) {
-            text.append((char) yard.hand(block * 512 + i));
+    private static void expectEntries(Yard yard, String... paths) {
+        int blocks = yard.write();
+        Expect.same("blocks", blocks, paths.length + 2);
+        for (int i = 0; i < paths.length; i++) {
+            Expect.text("entry " + i, yard.textAt(512 * i, 100), paths[i]);
         }
-        return text.toString();
+        Expect.text("the end", yard.bytes(512 * paths.length, 1024), Yard.repeat('\0', 1024));
+        Expect.same("bytes", yard.total(1), 512 * blocks);
     }
 
-    private static final String PLAIN = "0000000\u0000" + "0000000\u0000" + "0000000\u0000" + "00000000000\u0000" + "00000000000\u0000";
-
-    private static void header() {
-        TarYard yard = new TarYard();
-        Expect.same("the root alone", yard.write(), 2);
-        Expect.same("bytes", yard.total(1), 1024);
-        int dir = Yards.make(yard, 0, Yards.DIRECTORY, "dir");
-        int file = Yards.make(yard, dir, Yards.FILE, "file");
-        yard.set(dir, 4095, 2097151, Integer.MAX_VALUE);
-        yard.set(file, 420, 8, 9);
-        yard.contents(file, 65, 0);
-        Expect.same("blocks", yard.write(), 5);
-        Expect.same("bytes", yard.total(1), 5 * 512);
-        Yards.expectText("directory", block(yard, 0), header("dir/",
-                "0007777\u0000" + "7777777\u0000" + "0000000\u0000" + "00000000000\u0000" + "17777777777\u0000", 53, "", ""));
-        Yards.expectText("file", block(yard, 1), header("dir/file",
-                "0000644\u0000" + "0000010\u0000" + "0000000\u0000" + "00000000101\u0000" + "00000000011\u0000", 48, "", ""));
-        Yards.expectText("end", block(yard, 3) + block(yard, 4), padded("", 1024));
-        yard.remove(dir);
-        yard.size(10240);
-        Expect.same("fewer blocks", yard.write(), 2);
-        Expect.same("fewer bytes", yard.total(1), 1024);
-        Yards.expectText("in place of the bytes at hand", block(yard, 0) + block(yard, 1), padded("", 1024));
+    private static Yard withFiles(String... names) {
+        Yard yard = new Yard();
+        for (String name : names) {
+            yard.make(0, Yard.FILE, name);
+        }
+        return yard;
     }
 
-    private static void targets() {
-        TarYard yard = new TarYard();
-        int dir = Yards.make(yard, 0, Yards.DIRECTORY, "d");
-        int file = Yards.make(yard, dir, Yards.FILE, "f");
-        int soft = Yards.make(yard, 0, Yards.SYMBOLIC_LINK, "s");
-        Yards.make(yard, 0, Yards.SYMBOLIC_LINK, "t");
-        Yards.make(yard, dir, Yards.HARD_LINK, "h", file);
-        yard.contents(file, 10, 10);
-        Yards.target(yard, soft, Yards.repeat('x', 100));
-        Expect.same("blocks", yard.write(), 8);
-        Yards.expectText("symbolic link", block(yard, 3), header("s", PLAIN, 50, Yards.repeat('x', 100), ""));
-        Yards.expectText("without a target", block(yard, 4), header("t", PLAIN, 50, "", ""));
-        Yards.expectText("hard link", block(yard, 5), header("d/h", PLAIN, 49, "d/f", ""));
+    /** Files of the root, one block each. */
+    private static Yard withEntries(int count) {
+        Yard yard = new Yard();
+        for (int i = 0; i < count; i++) {
+            yard.make(0, Yard.FILE, 'a' + i, 1, 0);
+        }
+        return yard;
+    }
+
+    private static void theRootAlone() {
+        expectEntries(new Yard());
+    }
+
+    private static void eighteenEntries() {
+        expectEntries(withEntries(18), "a", "b", "c", "d", "e", "f", "g", "h", "i", "j", "k", "l", "m", "n", "o", "p", "q", "r");
+    }
+
+    private static void whatIsGone() {
+        Yard yard = new Yard();
+        int dir = yard.make(0, Yard.DIRECTORY, "b");
+        int file = yard.make(0, Yard.FILE, "a");
+        yard.make(dir, Yard.FILE, "c");
+        yard.make(0, Yard.HARD_LINK, "d", file);
+        yard.remove(file);
+        expectEntries(yard, "b/", "b/c");
+        yard.remove(2);
+        expectEntries(yard, "b/");
+        yard.remove(1);
+        expectEntries(yard);
+    }
+
+    private static void firstCharacter() {
+        expectEntries(withFiles("~", "a", "Z", "!", "A", "z", "0", "_", "b"), "!", "0", "A", "Z", "_", "a", "b", "z", "~");
+    }
+
+    private static void lastCharacter() {
+        String most = Yard.repeat('x', 99);
+        expectEntries(withFiles(most + "c", most + "~", most + "b"), most + "b", most + "c", most + "~");
+    }
+
+    private static void charactersBehind() {
+        expectEntries(withFiles("b!", "a~", "aaz", "aba", "ab!~", "ab~!"), "aaz", "ab!~", "aba", "ab~!", "a~", "b!");
+    }
+
+    private static void beginnings() {
+        String hundred = Yard.repeat('a', 100);
+        expectEntries(withFiles("ab", "a!", hundred, "a", "aaaaaaaa", "aa"), "a", "a!", "aa", "aaaaaaaa", hundred, "ab");
+    }
+
+    private static void rightBehindIt() {
+        Yard yard = new Yard();
+        int two = yard.make(0, Yard.DIRECTORY, "two");
+        int one = yard.make(0, Yard.DIRECTORY, "one");
+        yard.make(0, Yard.FILE, "p");
+        yard.make(two, Yard.FILE, "b");
+        yard.make(one, Yard.FILE, "z");
+        yard.make(two, Yard.FILE, "a");
+        yard.make(one, Yard.SYMBOLIC_LINK, "y");
+        yard.make(0, Yard.DIRECTORY, "empty");
+        expectEntries(yard, "empty/", "one/", "one/y", "one/z", "p", "two/", "two/a", "two/b");
+    }
+
+    /** A name is compared, not its path: 45 and 46 are below 47, but a directory's nodes come right behind it. */
+    private static void namesNotPaths() {
+        Yard yard = new Yard();
+        yard.make(0, Yard.FILE, "a-");
+        yard.make(0, Yard.FILE, "a.");
+        yard.make(0, Yard.FILE, "a0");
+        int dir = yard.make(0, Yard.DIRECTORY, "a");
+        yard.make(dir, Yard.FILE, "~");
+        yard.make(dir, Yard.FILE, "!");
+        expectEntries(yard, "a/", "a/!", "a/~", "a-", "a.", "a0");
+    }
+
+    private static void oneInAnother() {
+        Yard yard = new Yard();
+        int in = 0;
+        StringBuilder path = new StringBuilder();
+        String[] due = new String[18];
+        for (int i = 0; i < 17; i++) {
+            in = yard.make(in, Yard.DIRECTORY, "d");
+            due[i] = path.append("d/").toString();
+        }
+        yard.make(0, Yard.FILE, "e");
+        due[17] = "e";
+        expectEntries(yard, due);
+    }
+
+    private static void hardLinks() {
+        Yard yard = new Yard();
+        int file = yard.make(0, Yard.FILE, "z");
+        yard.make(0, Yard.HARD_LINK, "y", file);
+        int dir = yard.make(0, Yard.DIRECTORY, "a");
+        yard.make(0, Yard.FILE, "a-b");
+        yard.make(dir, Yard.HARD_LINK, "q", file);
+        yard.make(dir, Yard.SYMBOLIC_LINK, "p");
+        int deep = yard.make(dir, Yard.DIRECTORY, "m");
+        yard.make(deep, Yard.FILE, "k");
+        yard.make(deep, Yard.HARD_LINK, "j", file);
+        yard.make(0, Yard.HARD_LINK, "!", file);
+        yard.make(dir, Yard.HARD_LINK, "m-", file);
+        yard.make(0, Yard.FILE, "~");
+        expectEntries(yard, "a/", "a/m/", "a/m/k", "a/p", "a-b", "z", "~", "!", "a/m/j", "a/m-", "a/q", "y");
+    }
+
+    private static void twoBlocksOfZeros() {
+        for (int length : new int[] {0, 1, 512, 2000}) {
+            Yard yard = withEntries(1);
+            yard.contents(1, length, 255);
+            int blocks = yard.write();
+            Expect.text("behind contents of " + length, yard.bytes(512 * (blocks - 2), 1024), Yard.repeat('\0', 1024));
+            Expect.same("and nothing more", yard.hand(512 * blocks), Yard.NONE);
+        }
     }
 
     private static void contentsInBlocks() {
-        int[] lengths = {0, 1, 511, 512, 513, 1024, 1025, 2000};
-        int[] blocks = {0, 1, 1, 1, 2, 2, 3, 4};
+        int[] lengths = {0, 1, 511, 512, 513, 1023, 1024, 1025, 1536, 1537, 1999, 2000};
+        int[] blocks = {0, 1, 1, 1, 2, 2, 2, 3, 3, 4, 4, 4};
         for (int k = 0; k < lengths.length; k++) {
-            TarYard yard = new TarYard();
-            int file = Yards.make(yard, 0, Yards.FILE, "f");
-            yard.size(10240);
-            for (int i = 0; i < 3000; i++) {
-                yard.alter(i, 255);
-            }
-            yard.contents(file, lengths[k], 200);
-            Expect.same("blocks of " + lengths[k], yard.write(), 3 + blocks[k]);
-            for (int i = 0; i < blocks[k] * 512 + 1024; i++) {
+            Yard yard = withEntries(2);
+            yard.contents(1, lengths[k], 200);
+            Expect.same("blocks of " + lengths[k], yard.write(), 4 + blocks[k]);
+            for (int i = 0; i < blocks[k] * 512; i++) {
                 Expect.same("byte " + i, yard.hand(512 + i), i < lengths[k] ? (200 + 31 * i) % 256 : 0);
             }
+            Expect.text("the next entry", yard.textAt(512 + blocks[k] * 512, 100), "b");
         }
     }
 
-    private static void order() {
-        TarYard yard = new TarYard();
-        int file = Yards.make(yard, 0, Yards.FILE, "z");
-        Yards.make(yard, 0, Yards.HARD_LINK, "y", file);
-        int dir = Yards.make(yard, 0, Yards.DIRECTORY, "a");
-        Yards.make(yard, 0, Yards.FILE, "a-b");
-        Yards.make(yard, 0, Yards.FILE, "ab");
-        Yards.make(yard, 0, Yards.FILE, "B");
-        Yards.make(yard, dir, Yards.HARD_LINK, "q", file);
-        Yards.make(yard, dir, Yards.SYMBOLIC_LINK, "p");
-        int deep = Yards.make(yard, dir, Yards.DIRECTORY, "m");
-        Yards.make(yard, deep, Yards.FILE, "k");
-        Yards.make(yard, deep, Yards.HARD_LINK, "j", file);
-        Yards.make(yard, dir, Yards.FILE, "m-");
-        String[] paths = {"B", "a/", "a/m/", "a/m/k", "a/m-", "a/p", "a-b", "ab", "z", "a/m/j", "a/q", "y"};
-        Expect.same("blocks", yard.write(), paths.length + 2);
-        for (int i = 0; i < paths.length; i++) {
-            Yards.expectText("entry " + i, Yards.atHand(yard, 512 * i, 100), paths[i]);
-        }
-        Expect.same("the tree is as it was", yard.node(file, 0), Yards.FILE);
+    private static void noContents() {
+        Yard yard = new Yard();
+        int file = yard.make(0, Yard.FILE, "f");
+        yard.contents(file, 513, 1);
+        int soft = yard.make(0, Yard.SYMBOLIC_LINK, "s");
+        yard.fill(soft, Yard.repeat('t', 100));
+        yard.make(0, Yard.DIRECTORY, "d");
+        yard.make(0, Yard.HARD_LINK, "h", file);
+        Expect.same("blocks", yard.write(), 1 + 3 + 1 + 1 + 2);
+        Expect.text("the symbolic link", yard.textAt(4 * 512, 100), "s");
+        Expect.text("the hard link", yard.textAt(5 * 512, 100), "h");
     }
 
-    private static void whatIsGoneIsNotWritten() {
-        TarYard yard = new TarYard();
-        int dir = Yards.make(yard, 0, Yards.DIRECTORY, "b");
-        int file = Yards.make(yard, 0, Yards.FILE, "a");
-        Yards.make(yard, dir, Yards.FILE, "c");
-        Yards.make(yard, 0, Yards.HARD_LINK, "d", file);
-        yard.remove(file);
-        Expect.same("blocks", yard.write(), 4);
-        Yards.expectText("first", Yards.atHand(yard, 0, 100), "b/");
-        Yards.expectText("second", Yards.atHand(yard, 512, 100), "b/c");
+    private static void inPlaceOfMore() {
+        Yard yard = withEntries(2);
+        yard.contents(1, 2000, 3);
+        yard.contents(2, 2000, 4);
+        yard.write();
+        yard.size(10240);
+        yard.alter(10239, 1);
+        yard.contents(1, 5, 3);
         yard.remove(2);
-        Expect.same("blocks again", yard.write(), 3);
-        Yards.expectText("alone", Yards.atHand(yard, 0, 100), "b/");
-        Expect.same("end", yard.hand(512), 0);
+        Expect.same("blocks", yard.write(), 4);
+        Expect.same("bytes", yard.total(1), 2048);
+        Expect.text("behind the contents", yard.bytes(517, 2048 - 517), Yard.repeat('\0', 2048 - 517));
+        Expect.same("behind the end", yard.hand(2048), Yard.NONE);
+        yard.size(10240);
+        Expect.same("what was there is not kept", yard.hand(10239), 0);
+        Expect.same("nor before", yard.hand(2048), 0);
     }
 
-    private static void expectParts(String what, TarYard yard, int block, String first, String second) {
-        Yards.expectText(what + ", first", Yards.atHand(yard, block * 512 + 345, 155), first);
-        Yards.expectText(what + ", second", Yards.atHand(yard, block * 512, 100), second);
+    private static void inPlaceOfFewer() {
+        Yard yard = withEntries(1);
+        yard.size(3);
+        yard.alter(2, 255);
+        Expect.same("blocks", yard.write(), 3);
+        Expect.same("bytes", yard.total(1), 1536);
+        Expect.same("byte 2", yard.hand(2), 0);
     }
 
-    private static void cutPaths() {
-        TarYard yard = new TarYard();
-        int a = Yards.make(yard, 0, Yards.DIRECTORY, Yards.repeat('a', 50));
-        int b = Yards.make(yard, a, Yards.DIRECTORY, Yards.repeat('b', 30));
-        Yards.make(yard, b, Yards.FILE, Yards.repeat('c', 18));
-        Yards.make(yard, b, Yards.FILE, Yards.repeat('d', 19));
-        Yards.make(yard, b, Yards.FILE, Yards.repeat('e', 69));
-        Yards.make(yard, b, Yards.FILE, Yards.repeat('f', 70));
-        yard.write();
-        String top = Yards.repeat('a', 50);
-        String sub = Yards.repeat('b', 30);
-        expectParts("100", yard, 2, "", top + "/" + sub + "/" + Yards.repeat('c', 18));
-        expectParts("101", yard, 3, top, sub + "/" + Yards.repeat('d', 19));
-        expectParts("100 behind the first", yard, 4, top, sub + "/" + Yards.repeat('e', 69));
-        expectParts("101 behind the first", yard, 5, top + "/" + sub, Yards.repeat('f', 70));
-        cutPathOfADirectory();
-        longestFirstPart();
-        shortestSecondPart();
-    }
-
-    private static void shortestSecondPart() {
-        TarYard yard = new TarYard();
-        int p = Yards.make(yard, 0, Yards.DIRECTORY, "p");
-        int n = Yards.make(yard, p, Yards.DIRECTORY, Yards.repeat('n', 99));
-        Yards.make(yard, n, Yards.FILE, "f");
-        Expect.same("blocks", yard.write(), 5);
-        expectParts("100 behind, with the last 47", yard, 1, "p", Yards.repeat('n', 99) + "/");
-        expectParts("101 behind, so 1", yard, 2, "p/" + Yards.repeat('n', 99), "f");
-        Expect.same("is read again", yard.read(), 4);
-    }
-
-    private static void cutPathOfADirectory() {
-        TarYard yard = new TarYard();
-        int a = Yards.make(yard, 0, Yards.DIRECTORY, Yards.repeat('a', 40));
-        int b = Yards.make(yard, a, Yards.DIRECTORY, Yards.repeat('b', 58));
-        yard.write();
-        expectParts("100 with the last", yard, 1, "", Yards.repeat('a', 40) + "/" + Yards.repeat('b', 58) + "/");
-        yard.rename(b, 'c', 1);
-        yard.write();
-        expectParts("101 with the last", yard, 1, Yards.repeat('a', 40), Yards.repeat('b', 58) + "c/");
-    }
-
-    private static void longestFirstPart() {
-        TarYard yard = new TarYard();
-        int a = Yards.make(yard, 0, Yards.DIRECTORY, Yards.repeat('a', 90));
-        int b = Yards.make(yard, a, Yards.DIRECTORY, Yards.repeat('b', 64));
-        Yards.make(yard, b, Yards.FILE, Yards.repeat('c', 100));
-        yard.write();
-        expectParts("155 and 100", yard, 2, Yards.repeat('a', 90) + "/" + Yards.repeat('b', 64), Yards.repeat('c', 100));
-        Expect.same("last of the first part", yard.hand(1024 + 499), 'b');
-        String before = Yards.state(yard);
-        yard.rename(b, 'b', 1);
-        Expect.unsupported("156 and 100", yard::write);
-        Expect.same("the bytes stay", yard.total(1), 5 * 512);
-        yard.remove(3);
-        Expect.same("without the file", yard.write(), 4);
-        Expect.same("other bytes now", before.equals(Yards.state(yard)) ? 1 : 0, 0);
-    }
-
-    private static void uncuttablePaths() {
-        TarYard yard = new TarYard();
-        int dir = Yards.make(yard, 0, Yards.DIRECTORY, Yards.repeat('a', 99));
-        Expect.same("99 and the last 47", yard.write(), 3);
-        yard.rename(dir, 'a', 1);
-        String before = Yards.state(yard);
-        Expect.unsupported("nothing behind the only 47", yard::write);
-        Yards.expectText("state", Yards.state(yard), before);
-        TarYard file = new TarYard();
-        Yards.make(file, 0, Yards.FILE, Yards.repeat('a', 100));
-        Expect.same("a file of 100", file.write(), 3);
-        TarYard deep = new TarYard();
-        int in = Yards.make(deep, 0, Yards.DIRECTORY, "d");
-        Yards.make(deep, in, Yards.DIRECTORY, Yards.repeat('a', 100));
-        Expect.unsupported("101 behind the first, none behind the last", deep::write);
-        TarYard chain = new TarYard();
-        int at = 0;
-        for (int i = 1; i < 18; i++) {
-            at = Yards.make(chain, at, Yards.DIRECTORY, "abcdefghijkl");
+    private static void howMany() {
+        for (int entries = 0; entries <= 18; entries++) {
+            Expect.same("of " + entries, withEntries(entries).write(), entries + 2);
         }
-        Expect.same("221 characters", chain.write(), 19);
-        at = Yards.make(chain, at, Yards.DIRECTORY, "abcdefghijkl");
-        Expect.same("234 characters", chain.write(), 20);
-        chain.rename(1, Yards.word("abcdefgh"), 8);
-        chain.rename(1, Yards.word("abcdefgh"), 8);
-        chain.rename(1, Yards.word("abcdefgh"), 6);
-        Expect.unsupported("256 characters, but not at a 47", chain::write);
     }
 
-    private static void longFilesOfHardLinks() {
-        TarYard yard = new TarYard();
-        int dir = Yards.make(yard, 0, Yards.DIRECTORY, Yards.repeat('a', 90));
-        int file = Yards.make(yard, dir, Yards.FILE, Yards.repeat('b', 9));
-        Yards.make(yard, 0, Yards.HARD_LINK, "h", file);
-        Expect.same("100", yard.write(), 5);
-        Yards.expectText("target", Yards.atHand(yard, 1024 + 157, 100), Yards.repeat('a', 90) + "/" + Yards.repeat('b', 9));
-        yard.rename(file, 'b', 1);
-        Expect.unsupported("101", yard::write);
-        Expect.same("the bytes stay", yard.hand(1024 + 256), 'b');
-        yard.remove(3);
-        Expect.same("without the link", yard.write(), 4);
+    private static void twentyBlocks() {
+        Yard entries = withEntries(18);
+        Expect.same("18 entries", entries.write(), 20);
+        Expect.same("bytes", entries.total(1), 10240);
+        Yard contents = withEntries(4);
+        contents.contents(1, 2000, 1);
+        contents.contents(2, 2000, 2);
+        contents.contents(3, 2000, 3);
+        contents.contents(4, 1024, 4);
+        Expect.same("4 entries with contents", contents.write(), 20);
+        Expect.same("the last byte", contents.hand(18 * 512 - 1), (4 + 31 * 1023) % 256);
     }
 
-    private static void tooManyBlocks() {
-        TarYard yard = new TarYard();
-        for (int i = 0; i < 18; i++) {
-            yard.make(0, Yards.FILE, 'a' + i, 1, 0);
-        }
-        Expect.same("20", yard.write(), 20);
-        Expect.same("bytes", yard.total(1), 10240);
-        yard.fill(5, 1, 1);
-        String before = Yards.state(yard);
-        Expect.unsupported("21", yard::write);
-        Yards.expectText("state", Yards.state(yard), before);
-        yard.remove(1);
-        Expect.same("20 again", yard.write(), 20);
+    private static void oneEntryMore() {
+        Yard yard = withEntries(19);
+        Expect.unsupported(yard, "19 entries", Yard::write);
+        yard.remove(7);
+        Expect.same("18 of them", yard.write(), 20);
+        yard.make(0, Yard.DIRECTORY, "!");
+        Expect.unsupported(yard, "a directory more", Yard::write);
+        yard.remove(19);
+        yard.make(0, Yard.HARD_LINK, "!", 1);
+        Expect.unsupported(yard, "a hard link more", Yard::write);
+    }
+
+    private static void oneByteMore() {
+        Yard yard = withEntries(17);
         yard.contents(4, 512, 1);
         Expect.same("a whole block", yard.write(), 20);
-        yard.contents(4, 513, 1);
-        Expect.unsupported("a byte more", yard::write);
+        yard.fill(4, 1, 1);
+        Expect.unsupported(yard, "a byte more", Yard::write);
+        Yard empty = withEntries(18);
+        empty.fill(18, 1, 1);
+        Expect.unsupported(empty, "a byte in the last file", Yard::write);
+    }
+
+    private static void theLargestTree() {
+        Yard yard = withEntries(29);
+        for (int file = 1; file < 30; file++) {
+            yard.contents(file, 2000, file);
+        }
+        Expect.unsupported(yard, "29 files of 2000 bytes", Yard::write);
+    }
+
+    /** A file whose path has so many characters, in a directory that has 91 of them, and a hard link of it. */
+    private static Yard withLink(int length) {
+        Yard yard = new Yard();
+        int dir = yard.make(0, Yard.DIRECTORY, Yard.repeat('a', 90));
+        int file = yard.make(dir, Yard.FILE, Yard.repeat('b', length - 91));
+        yard.make(0, Yard.HARD_LINK, "h", file);
+        return yard;
+    }
+
+    private static void linkOfHundred() {
+        for (int length : new int[] {99, 100}) {
+            Yard yard = withLink(length);
+            Expect.same("blocks", yard.write(), 5);
+            Expect.text("target", yard.textAt(1024 + 157, 100), Yard.repeat('a', 90) + "/" + Yard.repeat('b', length - 91));
+        }
+    }
+
+    private static void linkOfHundredAndOne() {
+        Yard yard = withLink(101);
+        Expect.unsupported(yard, "101", Yard::write);
+        Expect.unsupported(withLink(150), "150", Yard::write);
+        yard.remove(3);
+        Expect.same("without the link its path is cut", yard.write(), 4);
+        Yard twice = withLink(100);
+        twice.make(0, Yard.HARD_LINK, "i", 2);
+        twice.rename(2, 'b', 1);
+        Expect.unsupported(twice, "one character more", Yard::write);
+    }
+
+    private static void nothingChanges() {
+        Yard yard = withLink(100);
+        yard.contents(2, 600, 1);
+        yard.set(0, 1, 2, 3);
+        yard.write();
+        yard.alter(512, 'x');
+        yard.read();
+        yard.rename(2, 'b', 1);
+        Expect.unsupported(yard, "a hard link's file", Yard::write);
+        Yard path = new Yard();
+        path.make(0, Yard.DIRECTORY, Yard.repeat('a', 99));
+        path.write();
+        path.rename(1, 'a', 1);
+        Expect.unsupported(path, "a path", Yard::write);
+        Yard blocks = withEntries(18);
+        blocks.write();
+        blocks.make(0, Yard.FILE, "z");
+        Expect.unsupported(blocks, "too many blocks", Yard::write);
+        Yard nothing = withEntries(19);
+        nothing.size(77);
+        Expect.unsupported(nothing, "what was at hand stays", Yard::write);
+    }
+
+    private static void theTreeStays() {
+        Yard yard = withLink(100);
+        yard.contents(2, 600, 1);
+        yard.set(0, 1, 2, 3);
+        yard.make(0, Yard.SYMBOLIC_LINK, "!");
+        yard.fill(4, "t");
+        String before = yard.tree();
+        yard.write();
+        Expect.text("the tree", yard.tree(), before);
+        String bytes = yard.bytes(0, yard.total(1));
+        yard.write();
+        Expect.text("the same bytes again", yard.bytes(0, yard.total(1)), bytes);
     }
 }
