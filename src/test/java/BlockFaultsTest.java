@@ -11,6 +11,7 @@ public final class BlockFaultsTest {
         Expect.holds("2 a block of zeros without a second (whole) one behind it", "not a fault 3", BlockFaultsTest::zerosHaveNoCheck);
         Expect.holds("2 a block of zeros", "nearly of zeros", BlockFaultsTest::nearlyZeros);
         Expect.holds("2 a block of zeros", "the last of 20", BlockFaultsTest::theLastOfTwenty);
+        Expect.holds("9 it would be node number 30", "nodes of the tree that was do not count", BlockFaultsTest::inPlaceOfAFullTree);
         Expect.holds("contents longer than 2000", "2000", BlockFaultsTest::contentsOf2000);
         Expect.holds("contents longer than 2000", "2001", BlockFaultsTest::contentsOf2001);
         Expect.holds("contents longer than 2000", "far longer", BlockFaultsTest::farLonger);
@@ -131,6 +132,20 @@ public final class BlockFaultsTest {
         yard.alter(18 * 512, "A" + yard.bytes(1, 511));
         yard.check(18);
         Archive.expectFault(yard, "19 entries and one block", 2, 19);
+    }
+
+    /** The bytes at hand hold 20 entries at most, so that none of them can be node number 30. */
+    private static void inPlaceOfAFullTree() {
+        Yard yard = new Yard();
+        for (int i = 0; i < 18; i++) {
+            yard.make(0, Yard.FILE, 'a' + i, 1, 0);
+        }
+        yard.write();
+        for (int i = 18; i < 29; i++) {
+            yard.make(0, Yard.FILE, 'A' + i, 1, 0);
+        }
+        Expect.same("nodes before", yard.total(0), 30);
+        Archive.expectNodes(yard, "18 entries", 19);
     }
 
     private static void contentsOf2000() {

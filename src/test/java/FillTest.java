@@ -14,11 +14,13 @@ public final class FillTest {
         Expect.holds("a character of a target is none such", "as the last of eight", FillTest::theLastOfEight);
         Expect.holds("it would be too long", "a file of 2000", FillTest::fileOf2000);
         Expect.holds("it would be too long", "a file of 2001", FillTest::fileOf2001);
+        Expect.holds("a symbolic link a TARGET of 0 to 100 characters 33 .. 126", FillTest::targets);
         Expect.holds("it would be too long", "a target of 100", FillTest::targetOf100);
         Expect.holds("it would be too long", "a target of 101", FillTest::targetOf101);
         Expect.holds("it would be too long", "nothing to a full one", FillTest::nothingToAFullOne);
         Expect.holds("of several exceptions that fit the one named first is thrown", FillTest::argumentsComeFirst);
         Expect.holds("A call that throws changes nothing", FillTest::nothingChanges);
+        Expect.holds("A call that throws changes nothing", "of what a later call answers", FillTest::laterCalls);
         Expect.holds("gets n bytes more", "behind contents that were longer once", FillTest::behindShorterContents);
         Expect.done();
     }
@@ -147,6 +149,20 @@ public final class FillTest {
         Expect.full(withFile(2000), "2000 and 8", y -> y.fill(1, 0, 8));
     }
 
+    private static void targets() {
+        Yard yard = withTarget(0);
+        Expect.same("of 0", yard.node(1, 6), 0);
+        Expect.same("of 0, its first", yard.part(1, 1, 0), Yard.NONE);
+        for (int letter = 33; letter <= 126; letter++) {
+            yard.fill(1, letter, 1);
+        }
+        yard.fill(1, "......");
+        Expect.same("of 100", yard.node(1, 6), 100);
+        Expect.same("its first", yard.part(1, 1, 0), 33);
+        Expect.same("the last of these characters", yard.part(1, 1, 93), 126);
+        Expect.same("its last", yard.part(1, 1, 99), '.');
+    }
+
     private static void targetOf100() {
         Expect.same("99 and 1", withTarget(99).fill(1, EIGHT, 1), 100);
         Yard yard = withTarget(92);
@@ -190,6 +206,18 @@ public final class FillTest {
         Expect.refused(yard, "root", y -> y.fill(0, EIGHT, 1));
         Expect.same("target then", yard.fill(1, EIGHT, 5), 100);
         Expect.same("contents then", yard.fill(2, EIGHT, 4), 2000);
+    }
+
+    private static void laterCalls() {
+        Yard yard = withTarget(1);
+        yard.make(0, Yard.FILE, "f");
+        Expect.refused(yard, "a blank is no name", y -> y.make(0, Yard.FILE, ' ', 1, 0));
+        Expect.same("a refused name is not a target's", yard.fill(1, 'x', 1), 2);
+        yard.fill(2, 0, 8);
+        Expect.same("a file's bytes are not a target's", yard.fill(1, Yard.word("ab"), 2), 4);
+        Expect.refused(yard, "a blank is no target", y -> y.fill(1, ' ', 1));
+        Expect.same("nor is it a name's", yard.make(0, Yard.FILE, "g"), 3);
+        Expect.same("nor a longer name's", yard.rename(3, 'h', 1), 2);
     }
 
     private static void behindShorterContents() {

@@ -17,6 +17,8 @@ public final class HeaderTest {
         Expect.holds("157 .. 256 the target", HeaderTest::targets);
         Expect.holds("or the path of a hard link's file", HeaderTest::pathOfAFile);
         Expect.holds("257 .. 264 the bytes 117 115 116 97 114 0 48 48", HeaderTest::mark);
+        Expect.holds("329 .. 336 and 337 .. 344 7 digits 48 and a zero", HeaderTest::behindTheMark);
+        Expect.holds("345 .. 499 the first part of the path, if it is cut", HeaderTest::firstPart);
         Expect.holds("zeros where nothing is told", HeaderTest::zeros);
         Expect.holds("A path longer than 100 is cut in two", "100 is not", HeaderTest::hundredIsNotCut);
         Expect.holds("A path longer than 100 is cut in two", "101 is", HeaderTest::hundredAndOneIsCut);
@@ -144,9 +146,7 @@ public final class HeaderTest {
         Yard yard = withFile();
         yard.set(1, 4095, 2097151, Integer.MAX_VALUE);
         yard.write();
-        for (int at : new int[] {116, 329, 337}) {
-            Expect.text("at " + at, yard.bytes(at, 8), "0000000\u0000");
-        }
+        Expect.text("at 116", yard.bytes(116, 8), "0000000\u0000");
     }
 
     private static void lengths() {
@@ -224,6 +224,30 @@ public final class HeaderTest {
         for (int i = 0; i < mark.length; i++) {
             Expect.same("byte " + (257 + i), yard.hand(257 + i), mark[i]);
         }
+    }
+
+    private static void behindTheMark() {
+        Yard yard = new Yard();
+        for (int kind = 0; kind <= 3; kind++) {
+            yard.make(0, kind, "n" + kind, 2);
+            yard.set(kind + 1, 4095, 2097151, Integer.MAX_VALUE);
+        }
+        yard.write();
+        for (int block = 0; block < 4; block++) {
+            Expect.text("of block " + block, yard.bytes(block * 512 + 329, 16), "0000000\u00000000000\u0000");
+        }
+    }
+
+    private static void firstPart() {
+        String a = Yard.repeat('a', 90);
+        String b = Yard.repeat('b', 64);
+        Yard yard = withPath(Yard.FILE, a, b, Yard.repeat('c', 100));
+        yard.write();
+        Expect.text("of a path of 91", yard.bytes(345, 155), padded("", 155));
+        Expect.text("of a path of 156", yard.bytes(512 + 345, 155), padded(a, 155));
+        Expect.text("of a path of 256", yard.bytes(1024 + 345, 155), a + "/" + b);
+        Expect.same("before it", yard.hand(1024 + 344), 0);
+        Expect.same("behind it", yard.hand(1024 + 500), 0);
     }
 
     private static void zeros() {

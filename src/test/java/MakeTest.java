@@ -15,6 +15,7 @@ public final class MakeTest {
         Expect.holds("in is no directory", MakeTest::noDirectories);
         Expect.holds("n is not 1 .. 8", "the first that are not", MakeTest::noLengths);
         Expect.holds("n is not 1 .. 8", "the last that are", MakeTest::lengths);
+        Expect.holds("a NAME of 1 to 100 characters", "of each kind", MakeTest::shortestAndLongest);
         Expect.holds("characters (33 .. 126 but 47)", "each alone", MakeTest::eachCharacterAlone);
         Expect.holds("characters (33 .. 126 but 47)", "each behind another one", MakeTest::eachCharacterBehind);
         Expect.holds("characters (33 .. 126 but 47)", "each as the eighth", MakeTest::eachCharacterAsTheEighth);
@@ -162,6 +163,17 @@ public final class MakeTest {
             int made = yard.make(0, Yard.FILE, Yard.word("abcdefgh"), n, 0);
             Expect.text("n " + n, yard.name(made), "abcdefgh".substring(0, n));
             Expect.same("how long", yard.node(made, 2), n);
+        }
+    }
+
+    private static void shortestAndLongest() {
+        for (int kind = 0; kind <= 3; kind++) {
+            Yard yard = ofEachKind();
+            int shortest = yard.make(1, kind, "!", 2);
+            int longest = yard.make(1, kind, Yard.repeat('~', 100), 2);
+            Expect.text("shortest of kind " + kind, yard.name(shortest), "!");
+            Expect.text("longest of kind " + kind, yard.name(longest), Yard.repeat('~', 100));
+            Expect.full(yard, "longer of kind " + kind, y -> y.rename(longest, '~', 1));
         }
     }
 
