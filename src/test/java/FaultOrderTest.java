@@ -1,9 +1,18 @@
+import java.util.List;
 import java.util.function.Consumer;
 
 /** READING: which of several faults is told. */
 public final class FaultOrderTest {
     /** How the file's entry gets faults 4 to 11, the first for 4. */
-    private static final Consumer<Archive>[] CHANGES = changes();
+    private static final List<Consumer<Archive>> CHANGES = List.of(
+            a -> a.with(257, 'x'),
+            a -> a.with(100, 'x'),
+            a -> a.with(156, 'x'),
+            a -> a.with(0, '/'),
+            a -> a.with(157, 'x'),
+            a -> a.with(124, "00000003721"),
+            a -> a.with(124, "00000003720"),
+            a -> a.yard.alter(Archive.CONTENTS + 3, 1));
 
     public static void main(String[] args) {
         Expect.holds("at each header the first FAULT that fits", "one fault alone", FaultOrderTest::oneAlone);
@@ -15,23 +24,14 @@ public final class FaultOrderTest {
         Expect.done();
     }
 
-    @SuppressWarnings("unchecked")
-    private static Consumer<Archive>[] changes() {
-        return new Consumer[] {
-            (Consumer<Archive>) a -> a.with(257, 'x'),
-            (Consumer<Archive>) a -> a.with(100, 'x'),
-            (Consumer<Archive>) a -> a.with(156, 'x'),
-            (Consumer<Archive>) a -> a.with(0, '/'),
-            (Consumer<Archive>) a -> a.with(157, 'x'),
-            (Consumer<Archive>) a -> a.with(124, "00000003721"),
-            (Consumer<Archive>) a -> a.with(124, "00000003720"),
-            (Consumer<Archive>) a -> a.yard.alter(Archive.CONTENTS + 3, 1)};
+    private static void change(Archive archive, int fault) {
+        CHANGES.get(fault - 4).accept(archive);
     }
 
     private static void oneAlone() {
         for (int fault = 4; fault <= 11; fault++) {
             Archive archive = new Archive();
-            CHANGES[fault - 4].accept(archive);
+            change(archive, fault);
             archive.expectFault("fault " + fault, fault);
         }
     }
@@ -41,8 +41,8 @@ public final class FaultOrderTest {
         for (int first = 4; first <= 11; first++) {
             for (int second = first + 1; second <= 11; second++) {
                 Archive archive = new Archive();
-                CHANGES[second - 4].accept(archive);
-                CHANGES[first - 4].accept(archive);
+                change(archive, second);
+                change(archive, first);
                 archive.expectFault("faults " + first + " and " + second, first);
             }
         }
@@ -54,7 +54,7 @@ public final class FaultOrderTest {
     private static void theCheck() {
         for (int fault = 4; fault <= 11; fault++) {
             Archive archive = new Archive();
-            CHANGES[fault - 4].accept(archive);
+            change(archive, fault);
             archive.yard.alter(Archive.HEADER + 155, 0);
             archive.expectFault("faults 3 and " + fault, 3);
         }
@@ -63,7 +63,7 @@ public final class FaultOrderTest {
     private static void allOfThem() {
         Archive archive = new Archive();
         for (int fault = 11; fault >= 4; fault--) {
-            CHANGES[fault - 4].accept(archive);
+            change(archive, fault);
             archive.expectFault("faults from " + fault + " on", fault);
         }
         archive.yard.alter(Archive.HEADER + 155, 0);
