@@ -76,6 +76,8 @@ final class Shell {
     static void write(Path file, String text) {
         try {
             Files.createDirectories(file.getParent());
+            // A copy of a file that may only be read can't be written over.
+            Files.deleteIfExists(file);
             Files.writeString(file, text);
         } catch (IOException e) {
             throw new UncheckedIOException(e);
